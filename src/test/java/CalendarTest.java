@@ -3,6 +3,7 @@ public final class CalendarTest {
     public static void main(String[] args) {
         calendar();
         counts();
+        firstWish();
         averages();
         Checks.end();
     }
@@ -41,6 +42,18 @@ public final class CalendarTest {
         Checks.due(x.imbalance(), 0);
         Checks.due(x.undo(), 4);
         Checks.due(x.fadedCount(), 2);
+    }
+
+    private static void firstWish() {
+        WishMarket x = Checks.market("market 4;stall 4 0 0 0;person a 0 0 0;wish p 9 0 with 0;wish q 9 0 with 0");
+        x.grant(0);
+        Checks.due(x.grantedCount(), 1);
+        Checks.due(x.fadedCount(), 0);
+        x.grant(1);
+        Checks.due(x.grantedCount(), 2);
+        x = Checks.market("market 4;stall 4 0 0 0;person a 0 0 0;wish p 9 0 with 0 worn 9;wish q 9 0 with 0;advance 4");
+        Checks.due(x.fadedCount(), 1);
+        Checks.due(x.grantedCount(), 0);
     }
 
     private static void averages() {

@@ -69,6 +69,11 @@ public final class DayTest {
         x.setLimit(0, 43);
         x.advance(1);
         Checks.due(x.owner(1), 0);
+        // The smallest limit is enough for the smallest price.
+        x = Checks.market("market 60;stall 8 0 0 0;person a 90 0 0;wish a 1 0 at 0;limit 0 1;advance 1");
+        Checks.due(x.owner(0), 0);
+        x = Checks.market("market 60;stall 8 0 0 0;person a 90 0 0;wish a 1 0 at 0;advance 1");
+        Checks.due(x.owner(0), NONE);
     }
 
     private static void shoppingOrder() {
@@ -131,6 +136,16 @@ public final class DayTest {
         x = Checks.market(h.replace("1 40 50", "1 39 50") + "buy 0 0");
         x.advance(1);
         Checks.due(x.owner(0), 0);
+        // A bargainer sells only wishes of his own.
+        x = Checks.market("market 60;stall 8 99 48 0;stall 8 99 50 0;person a 50 9 0 bargain;person b 50 9 0;"
+                + "person c 50 9 0 bargain;wish a 40 0 at 0;buy 1 0;advance 5");
+        Checks.due(x.purchasePrice(0), 39);
+        Checks.due(x.owner(0), 1);
+        // So it is also if the first stall would pay more.
+        x = Checks.market("market 60;stall 8 99 50 0;stall 8 99 30 0;person a 50 9 0 bargain;person b 50 9 0;"
+                + "wish a 40 0 at 1;buy 1 0;advance 5");
+        Checks.due(x.purchasePrice(0), 32);
+        Checks.due(x.owner(0), 1);
         // The first wish brings no gain, the second one does.
         x = Checks.market("market 60;stall 8 99 50 0;stall 8 0 0 0;person a 99 9 0 bargain;person b 99 9 0 bargain;"
                 + "wish a 40 0 at 0;wish b 40 0 at 1;wish c 40 0 at 1;buy 0 0;buy 0 1;buy 1 2");

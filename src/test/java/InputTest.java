@@ -10,6 +10,7 @@ public final class InputTest {
         errorsStay();
         invalidSetupChangesNothing();
         validSetupReplaces();
+        nothingIsLeftOver();
         Checks.end();
     }
 
@@ -151,5 +152,46 @@ public final class InputTest {
         x.advance(1);
         Checks.due(x.returnObstacle(0), 2);
         Checks.due(x.imbalance(), 0);
+    }
+
+    /** A small setup after a large one, valid or not: its persons, stalls and wishes are new, and there are no others. */
+    private static void nothingIsLeftOver() {
+        String large = "market 5;stall 8 999 50 0;stall 8 0 9 0;stall 8 0 0 0;person q 99 0 0 party bargain;"
+                + "person r 999 0 0 bargain;wish m 9 0 with 0;wish n 99 0 at 0;wish o 9 0 with 1;"
+                + "wish p 9 0 with 0 worn 9;limit 0 9;limit 1 9;tax 1 9;auction 2;buy 1 1;advance 5;repeat 5(advance 300)";
+        String small = "market 4;stall 1 40 0 0;person a 50 0 0;wish x 30 0 with 0";
+        for (String end : new String[] {"", ";"}) {
+            WishMarket x = new WishMarket();
+            Checks.append(x, large + end);
+            int length = large.length() + end.length();
+            if (end.isEmpty()) {
+                Checks.due(x.parseSetup(length), 4);
+                Checks.due(x.grantedCount(), 1);
+                Checks.due(x.happiness(0), 9);
+            } else {
+                Checks.thrown(Checks.ARGUMENT, () -> x.parseSetup(length));
+            }
+            Checks.due(Checks.load(x, small + ";auction 0;tax 0 10;advance 300"), 1);
+            Checks.due(x.happiness(0), 0);
+            Checks.due(x.shoppingLimit(0), 0);
+            Checks.due(x.grantedCount(), 0);
+            Checks.due(x.fadedCount(), 1);
+            Checks.due(x.candles(0), 75);
+            Checks.due(x.coins(0) + x.cash(0), 90);
+            Checks.due(x.imbalance(), 0);
+            // The days of the setups before do not count for the 2000 days of this one.
+            Checks.due(Checks.load(x, small + ";repeat 5(advance 300)"), 1);
+            Checks.due(Checks.load(x, "market 9;stall 1 0 0 0;person a 50 0 0;wish x 30 0 at 0;auction 0;advance 1"), 1);
+            Checks.due(x.owner(0), 0);
+            Checks.due(x.grantedCount() + x.fadedCount(), 0);
+            Checks.thrown(Checks.INDEX, () -> x.coins(1));
+            Checks.thrown(Checks.INDEX, () -> x.cash(1));
+            Checks.thrown(Checks.INDEX, () -> x.wear(1));
+            // Neither habit of the person before is left.
+            Checks.due(Checks.load(x, "market 9;stall 8 0 0 0;stall 8 99 50 0;person a 50 0 9;wish x 30 0 at 0;"
+                    + "wish y 8 0 with 0;buy 0 0;advance 1"), 2);
+            Checks.due(x.owner(0), 0);
+            Checks.due(x.owner(1), 0);
+        }
     }
 }

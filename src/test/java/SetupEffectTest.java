@@ -71,6 +71,9 @@ public final class SetupEffectTest {
         Checks.due(x.purchasePrice(0), WishMarket.NONE);
         Checks.due(x.refund(0), WishMarket.NONE);
         Checks.due(x.returnObstacle(0), 1);
+        Checks.due(x.stallOf(0), WishMarket.NONE);
+        Checks.due(x.stallOf(2), WishMarket.NONE);
+        Checks.due(x.stockCount(0), 0);
         x = Checks.market(H + ";buy 0 0;swap 2 0");
         Checks.due(x.owner(0), 1);
         Checks.due(x.purchaseDay(0), WishMarket.NONE);

@@ -33,6 +33,13 @@ public final class SetupErrorTest {
         Checks.syntaxError("^(market 9)");
         Checks.syntaxError("^markets 9");
         Checks.syntaxError("^marke 9");
+        Checks.syntaxError("^narket 9");
+        Checks.syntaxError("^markex 9");
+        Checks.syntaxError(H + "^xtall 1 0 0 0");
+        Checks.syntaxError(H + "^see 1");
+        Checks.syntaxError(H + "wish z 1 0 ^it 0");
+        Checks.syntaxError(H + "wish z 1 0 at 0 ^torn 0");
+        Checks.syntaxError(H + "person z 1 0 0 ^warty");
         Checks.syntaxError("^marketmarket 9");
         Checks.syntaxError("^stall 9");
         Checks.syntaxError("market ^0009");

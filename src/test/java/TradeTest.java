@@ -33,6 +33,9 @@ public final class TradeTest {
         Checks.due(x.price(4), NONE);
         x.grant(5);
         Checks.due(x.price(5), NONE);
+        // 999999 / 100000
+        x = Checks.market("market 9;stall 8 0 41 11;person a 0 0 0;wish a 11 0 at 0 worn 1");
+        Checks.due(x.price(0), 9);
     }
 
     private static void offers() {
@@ -48,6 +51,9 @@ public final class TradeTest {
         Checks.due(x.offer(3, 0), 5);
         x.grant(3);
         Checks.due(x.offer(3, 0), NONE);
+        // 31968 / 1000
+        x = Checks.market("market 9;stall 8 0 46 0;person a 99 0 0;wish a 37 0 with 0 worn 1");
+        Checks.due(x.offer(0, 0), 31);
     }
 
     private static void refunds() {
