@@ -160,6 +160,21 @@ public final class InputTest {
                 + "person r 999 0 0 bargain;wish m 9 0 with 0;wish n 99 0 at 0;wish o 9 0 with 1;"
                 + "wish p 9 0 with 0 worn 9;limit 0 9;limit 1 9;tax 1 9;auction 2;buy 1 1;advance 5;repeat 5(advance 300)";
         String small = "market 4;stall 1 40 0 0;person a 50 0 0;wish x 30 0 with 0";
+        WishMarket y = new WishMarket();
+        Checks.load(y, small + ";wish y 9 0 with 0;wish z 9 0 with 0 worn 9;grant 1;advance 4");
+        Checks.due(y.grantedCount() + y.fadedCount(), 2);
+        Checks.load(y, small);
+        Checks.due(y.grantedCount(), 0);
+        Checks.load(y, small + ";wish y 9 0 with 0");
+        Checks.due(y.fadedCount(), 0);
+        String two = "market 9;stall 8 0 0 0;stall 8 99 50 0;person a 50 1 0;person b 999 1 0;wish x 8 0 with 0;"
+                + "wish y 30 0 at 0;buy 0 1";
+        Checks.load(y, two);
+        Checks.load(y, "market 9;stall 8 0 0 0;stall 8 99 50 0;person a 50 1 0 bargain;wish x 8 0 with 0;advance 1");
+        Checks.due(y.coins(0), 50);
+        Checks.load(y, two);
+        Checks.load(y, "market 9;stall 8 0 0 0;person a 50 1 0;wish x 40 0 at 0;auction 0;advance 1");
+        Checks.due(y.owner(0), 0);
         for (String end : new String[] {"", ";"}) {
             WishMarket x = new WishMarket();
             Checks.append(x, large + end);

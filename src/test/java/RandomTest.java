@@ -82,15 +82,32 @@ public final class RandomTest {
         if (x.bufferLength() > 0) {
             answer("IA", () -> x.parseSetup(x.bufferLength()));
         }
-        int length = Checks.append(x, setup());
+        String text = setup();
+        int length = Checks.append(x, text);
         answer("IA", () -> x.parseSetup(length));
         if (x.parseErrorCode() == 0) {
             loadedSetups++;
+            sameAsFresh(x, text);
         }
         boolean right = (x.parseErrorCode() == 0) == (x.parseErrorPosition() == WishMarket.NONE)
                 && x.parseErrorCode() >= 0 && x.parseErrorCode() <= 4 && x.parseErrorPosition() <= length
                 && x.bufferLength() == 0;
         Checks.due(right, true);
+    }
+
+    /** What an object was before makes no difference to the setup that replaces it. */
+    private static void sameAsFresh(WishMarket x, String text) {
+        WishMarket fresh = Checks.market(text);
+        for (int days = 0; days <= 60; days += 6) {
+            for (int p = 0; p < x.personCount(); p++) {
+                Checks.due(x.coinsAfter(p, days), fresh.coinsAfter(p, days));
+            }
+            for (int w = 0; isWish(x, w); w++) {
+                Checks.due(x.valueAfter(w, days), fresh.valueAfter(w, days));
+            }
+        }
+        Checks.due(x.grantedCount(), fresh.grantedCount());
+        Checks.due(x.fadedCount(), fresh.fadedCount());
     }
 
     private static void change(WishMarket x, int kind) {
