@@ -4,14 +4,28 @@ final class Checks {
         Object answer();
     }
 
+    interface CallOn {
+        Object answer(WishMarket x);
+    }
+
+    interface CallAt {
+        Object answer(WishMarket x, int index);
+    }
+
     static final Class<IllegalStateException> STATE = IllegalStateException.class;
     static final Class<IndexOutOfBoundsException> INDEX = IndexOutOfBoundsException.class;
     static final Class<IllegalArgumentException> ARGUMENT = IllegalArgumentException.class;
 
     private static int checked = 0;
     private static int wrong = 0;
+    private static String sentence = "";
 
     private Checks() {
+    }
+
+    /** The sentence of the document that the checks behind this call are about; a wrong answer is told with it. */
+    static void sentence(String text) {
+        sentence = text;
     }
 
     static void due(Object got, Object want) {
@@ -95,6 +109,17 @@ final class Checks {
         count(got.equals(want) && thrown == (code == 0 ? 0 : 1), got + ", due is " + want + ": " + marked);
     }
 
+    /** The call answers, whatever it answers. */
+    static void answered(Call call) {
+        String got = "";
+        try {
+            call.answer();
+        } catch (RuntimeException e) {
+            got = "threw " + e + ", due is an answer";
+        }
+        count(got.isEmpty(), got);
+    }
+
     /** The whole output. */
     static String output(WishMarket x, int length) {
         StringBuilder text = new StringBuilder();
@@ -117,7 +142,7 @@ final class Checks {
         checked++;
         if (!right) {
             wrong++;
-            System.out.println(place() + ": " + text);
+            System.out.println(place() + ": " + text + (sentence.isEmpty() ? "" : "; \"" + sentence + "\""));
         }
     }
 
