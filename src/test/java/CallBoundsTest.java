@@ -8,6 +8,7 @@ public final class CallBoundsTest {
 
     public static void main(String[] args) {
         emptyObject();
+        noSuchCall();
         fullBuffer();
         parsedLength();
         fullSetup();
@@ -18,6 +19,7 @@ public final class CallBoundsTest {
         averages();
         happinessAndOwned();
         untilBirthday();
+        noneOfThese();
         searchesWithout();
         predictedDays();
         untilFaded();
@@ -40,6 +42,23 @@ public final class CallBoundsTest {
         Checks.due(x.bufferLength(), 0);
         Checks.due(x.undoCount(), 0);
         Checks.thrown(Checks.STATE, () -> x.day());
+        Checks.sentence("All methods except append, parseSetup, parseErrorCode, parseErrorPosition, bufferLength, "
+                + "outputByte, undoCount, undo and restoreState throw IllegalStateException if no setup has been "
+                + "loaded.");
+        Checks.due(x.append(1, 2, 3, 4, 5), 20);
+        Checks.thrown(Checks.ARGUMENT, () -> x.parseSetup(20));
+        Checks.due(x.bufferLength(), 0);
+        Checks.due(x.undoCount(), 0);
+        Checks.thrown(Checks.INDEX, () -> x.outputByte(0));
+        Checks.thrown(Checks.INDEX, () -> x.restoreState(2));
+        // Where these two throw it nevertheless, it is for want of a change and of a saved state.
+        Checks.thrown(Checks.STATE, () -> x.undo());
+        Checks.thrown(Checks.STATE, () -> x.restoreState(1));
+        Checks.thrown(Checks.STATE, () -> x.day());
+    }
+
+    private static void noSuchCall() {
+        WishMarket x = new WishMarket();
         Checks.sentence("0 if that call succeeded or if there was no such call.");
         Checks.due(x.parseErrorCode(), 0);
         Checks.due(x.parseErrorPosition(), NONE);
@@ -76,8 +95,8 @@ public final class CallBoundsTest {
     }
 
     private static void parsedLength() {
-        Checks.sentence("if length is negative or greater than the length of the buffer (checked first; the buffer and the "
-                + "latest parse error stay unchanged)");
+        Checks.sentence("if length is negative or greater than the length of the buffer (checked first;"
+                + " the buffer and the latest parse error stay unchanged)");
         WishMarket x = new WishMarket();
         Checks.append(x, SMALL);
         for (int wrong : new int[] {-1, 41, 500, 501, Integer.MIN_VALUE, Integer.MAX_VALUE}) {
@@ -203,14 +222,17 @@ public final class CallBoundsTest {
         Checks.due(Checks.market(SMALL + ";wish w 1 0 with 0 worn 5;grant 0").averageWear(), 0.0);
         Checks.due(Checks.market(SMALL + ";wish w 1 0 with 0 worn 9;advance 9").averageWear(), 0.0);
         Checks.due(Checks.market(SMALL + ";wish w 1 0 at 0 worn 9").averageWear(), 9.0);
-        Checks.due(Checks.market(SMALL + ";wish w 1 0 at 0 worn 1;wish v 1 0 with 0;wish u 1 0 with 0").averageWear(), 1.0 / 3.0);
-        Checks.due(Checks.market(SMALL + ";wish w 1 0 at 0 worn 8;wish v 1 0 with 0 worn 9;advance 9").averageWear(), 9.0);
-        Checks.sentence("Returns the sum of the stars of all stalls, converted to float, divided by the number of stalls, "
-                + "converted to float.");
+        Checks.due(Checks.market(SMALL + ";wish w 1 0 at 0 worn 1;wish v 1 0 with 0;wish u 1 0 with 0").averageWear(),
+                1.0 / 3.0);
+        Checks.due(Checks.market(SMALL + ";wish w 1 0 at 0 worn 8;wish v 1 0 with 0 worn 9;advance 9").averageWear(),
+                9.0);
+        Checks.sentence("Returns the sum of the stars of all stalls, converted to float, divided by the number of "
+                + "stalls, converted to float.");
         Checks.due(Checks.market("market 9;stall 1 0 0 0;person a 0 0 0").averageStars(), 0.0f);
         Checks.due(Checks.market("market 9;stall 1 0 50 0;person a 0 0 0").averageStars(), 50.0f);
         Checks.due(Checks.market("market 9;repeat 5(stall 1 0 50 0);person a 0 0 0").averageStars(), 50.0f);
-        Checks.due(Checks.market("market 9;repeat 2(stall 1 0 0 0);stall 1 0 1 0;person a 0 0 0").averageStars(), 1.0f / 3.0f);
+        Checks.due(Checks.market("market 9;repeat 2(stall 1 0 0 0);stall 1 0 1 0;person a 0 0 0").averageStars(),
+                1.0f / 3.0f);
     }
 
     private static void happinessAndOwned() {
@@ -244,6 +266,53 @@ public final class CallBoundsTest {
         }
     }
 
+    private static void noneOfThese() {
+        String h = "market 9;stall 8 99 50 0;stall 8 99 0 0;person a 99 0 9;person b 99 0 9;wish w 20 0 ";
+        // Owner, stall, day and price of the purchase, price, offer of stall 0, refund.
+        whereItIs(h + "at 0", NONE, 0, NONE, NONE, 20, NONE, NONE);
+        whereItIs(h + "at 1", NONE, 1, NONE, NONE, 10, NONE, NONE);
+        whereItIs(h + "with 1", 1, NONE, NONE, NONE, NONE, 20, NONE);
+        whereItIs(h + "at 0;buy 1 0", 1, NONE, 0, 20, NONE, 20, 18);
+        whereItIs(h + "at 1;advance 8;buy 0 0", 0, NONE, 8, 10, NONE, 20, 9);
+        whereItIs(h + "at 1;auction 2;advance 3", 0, NONE, 2, 20, NONE, 20, 18);
+        whereItIs(h + "at 0;buy 1 0;gift 0 0", 0, NONE, NONE, NONE, NONE, 20, NONE);
+        whereItIs(h + "at 0;buy 1 0;wish v 1 0 with 0;swap 1 0", 0, NONE, NONE, NONE, NONE, 20, NONE);
+        whereItIs(h + "at 0;buy 1 0;sell 0 1", NONE, 1, NONE, NONE, 10, NONE, NONE);
+        whereItIs(h + "at 0;buy 1 0;return 0", NONE, 0, NONE, NONE, 19, NONE, NONE);
+        whereItIs(h + "at 0;buy 1 0;grant 0", NONE, NONE, NONE, NONE, NONE, NONE, NONE);
+        whereItIs(h + "at 0 worn 9;advance 9", NONE, NONE, NONE, NONE, NONE, NONE, NONE);
+        whereItIs(h + "at 0 worn 9;buy 1 0;advance 9", NONE, NONE, NONE, NONE, NONE, NONE, NONE);
+        Checks.sentence("it is always 0.");
+        WishMarket x = Checks.market("market 4;person a 999 0 0 bargain" + Setups.stalls(5) + Setups.persons(5)
+                + Setups.wishes(16) + ";limit 0 200;auction 1;tax 2 50;buy 1 9");
+        for (int i = 0; i < 50; i++) {
+            Checks.due(x.imbalance(), 0);
+            x.advance(1);
+        }
+    }
+
+    private static void whereItIs(String setup, int... due) {
+        WishMarket x = Checks.market(setup);
+        Checks.sentence("Returns index of the person; NONE if nobody owns it.");
+        Checks.due(x.owner(0), due[0]);
+        Checks.sentence("Returns index of the stall; NONE if it is in no stall.");
+        Checks.due(x.stallOf(0), due[1]);
+        Checks.sentence("Returns the day; NONE if nobody owns the wish, or the owner did not buy it.");
+        Checks.due(x.purchaseDay(0), due[2]);
+        Checks.sentence("Returns the price; NONE if purchaseDay() is NONE.");
+        Checks.due(x.purchasePrice(0), due[3]);
+        Checks.sentence("Returns the price; NONE if it is in no stall.");
+        Checks.due(x.price(0), due[4]);
+        Checks.sentence("Returns the amount; NONE if nobody owns the wish.");
+        Checks.due(x.offer(0, 0), due[5]);
+        Checks.sentence("Returns the amount; NONE if purchaseDay() is NONE.");
+        Checks.due(x.refund(0), due[6]);
+        Checks.sentence("Returns true if it has been granted.");
+        Checks.due(x.isGranted(0), setup.contains("grant"));
+        Checks.sentence("it is always 0.");
+        Checks.due(x.imbalance(), 0);
+    }
+
     private static void searchesWithout() {
         Checks.sentence("NONE if the person can buy no wish.");
         Checks.due(Checks.market(SMALL).cheapestWish(0), NONE);
@@ -252,9 +321,12 @@ public final class CallBoundsTest {
         Checks.due(Checks.market(h + "wish v 10 0 at 0;wish w 9 0 at 0").cheapestWish(0), 1);
         Checks.due(Checks.market(h + "wish v 9 0 at 0;wish w 9 0 at 0").cheapestWish(0), 0);
         Checks.due(Checks.market(h + "wish v 9 0 at 0;wish w 8 0 at 0;wish u 8 0 at 0").cheapestWish(0), 1);
+        Checks.due(Checks.market(h + "wish v 7 0 at 0;wish w 8 0 at 0;wish u 9 0 at 0").cheapestWish(0), 0);
         Checks.due(Checks.market(h + "wish v 9 0 with 0").cheapestWish(0), NONE);
-        Checks.due(Checks.market(h + "wish p 9 0 with 0;wish q 9 0 with 0;wish r 9 0 with 0;wish s 9 0 at 0").cheapestWish(0), 3);
-        Checks.due(Checks.market(h + "wish p 9 0 with 0;wish q 9 0 with 0;wish r 9 0 with 0;wish s 9 0 with 0;wish t 1 0 at 0")
+        Checks.due(Checks.market(h + "wish p 9 0 with 0;wish q 9 0 with 0;wish r 9 0 with 0;"
+                + "wish s 9 0 at 0").cheapestWish(0), 3);
+        Checks.due(Checks.market(h + "wish p 9 0 with 0;wish q 9 0 with 0;wish r 9 0 with 0;wish s 9 0 with 0;"
+                + "wish t 1 0 at 0")
                 .cheapestWish(0), NONE);
         Checks.sentence("Returns index of the wish; of several the smallest one; NONE if there is none.");
         String g = "market 9;stall 8 0 50 0;person a 9 0 5;person b 9 1 5;";
@@ -278,8 +350,9 @@ public final class CallBoundsTest {
 
     private static void predictedDays() {
         Checks.sentence("`days`: number of days, 0 to 300");
-        String text = "market 7;stall 8 500 0 40;stall 8 300 30 0;person a 900 2 0 party bargain;person b 400 4 0 bargain;"
-                + "wish p 99 1 at 0;wish q 80 2 at 0;wish r 70 3 at 1;wish s 60 40 with 1;limit 0 90;limit 1 50;auction 6;tax 5 7";
+        String text = "market 7;stall 8 500 0 40;stall 8 300 30 0;person a 900 2 0 party bargain;"
+                + "person b 400 4 0 bargain;wish p 99 1 at 0;wish q 80 2 at 0;wish r 70 3 at 1;wish s 60 40 with 1;"
+                + "limit 0 90;limit 1 50;auction 6;tax 5 7";
         String before = Picture.of(Checks.market(text));
         for (int days = 0; days <= 300; days++) {
             WishMarket x = Checks.market(text);
@@ -334,8 +407,8 @@ public final class CallBoundsTest {
         Checks.due(Checks.output(x, x.writeStall(0)), "z=1");
         x.buy(0, 0);
         Checks.due(Checks.output(x, x.writeStall(0)), "-");
-        Checks.sentence("for each wish, in the order of the indices, its name, an equals sign and its price, with a space "
-                + "between two wishes.");
+        Checks.sentence("for each wish, in the order of the indices, its name, an equals sign and its price, with a "
+                + "space between two wishes.");
         StringBuilder text = new StringBuilder("market 9;stall 8 0 50 100;stall 8 0 0 0;person a 0 0 0");
         StringBuilder due = new StringBuilder();
         for (int i = 0; i < 8; i++) {
@@ -350,8 +423,8 @@ public final class CallBoundsTest {
     }
 
     private static void personOutput() {
-        Checks.sentence("the name, a colon and the number of coins; then, for each wish that the person owns, in the order of "
-                + "the indices, a space and the name of the wish.");
+        Checks.sentence("the name, a colon and the number of coins; then, for each wish that the person owns, in the "
+                + "order of the indices, a space and the name of the wish.");
         String h = "market 9;stall 8 999 50 0;person a 0 0 0;person uvwxyz 999 0 0";
         WishMarket x = Checks.market(h);
         Checks.due(Checks.output(x, x.writePerson(0)), "a:0");
@@ -399,8 +472,8 @@ public final class CallBoundsTest {
         Checks.due(x.advance(300), 0);
         Checks.due(x.day(), 301);
         Checks.sentence("Returns the number of wishes that were granted in them.");
-        WishMarket y = Checks.market("market 4;stall 8 0 0 0;person a 0 0 0 party;person b 0 0 0 party;wish p 9 0 with 0;"
-                + "wish q 9 0 with 0;wish r 9 0 with 1;wish s 9 2 with 1;wish t 9 0 with 0");
+        WishMarket y = Checks.market("market 4;stall 8 0 0 0;person a 0 0 0 party;person b 0 0 0 party;"
+                + "wish p 9 0 with 0;wish q 9 0 with 0;wish r 9 0 with 1;wish s 9 2 with 1;wish t 9 0 with 0");
         // A wish that is granted by grant() is none of them.
         y.grant(4);
         Checks.due(y.advance(1), 2);
@@ -437,8 +510,8 @@ public final class CallBoundsTest {
     }
 
     private static void eightChanges() {
-        Checks.sentence("At most the latest 8 changes since the latest successful call of parseSetup or restoreState can be "
-                + "undone.");
+        Checks.sentence("At most the latest 8 changes since the latest successful call of parseSetup or restoreState "
+                + "can be undone.");
         for (int changes = 0; changes <= 27; changes++) {
             WishMarket x = Checks.market(SMALL);
             for (int i = 1; i <= changes; i++) {
@@ -457,8 +530,8 @@ public final class CallBoundsTest {
     }
 
     private static void changesThatChangeNothing() {
-        Checks.sentence("Each successful call of a method in the section \"changes\" above undo() can be undone, even if it "
-                + "changed nothing.");
+        Checks.sentence("Each successful call of a method in the section \"changes\" above undo() can be undone, even "
+                + "if it changed nothing.");
         Checks.CallOn[] changes = {x -> x.setLimit(0, 0), x -> x.setMargin(0, 0), x -> x.advance(1), x -> x.buy(0, 0),
             x -> x.sell(1, 0), x -> x.grant(1), x -> x.returnWish(2)};
         for (Checks.CallOn change : changes) {

@@ -30,8 +30,8 @@ public final class DayBoundsTest {
     private static void wearAtYearEnd() {
         Checks.sentence("At the end of each year, the wear of every wish that is in a stall or owned increases by 1.");
         for (int year : new int[] {4, 60}) {
-            WishMarket x = Checks.market("market " + year + ";stall 8 0 0 0;person a 0 0 0;wish v 9 0 at 0;wish w 9 0 with 0;"
-                    + "wish u 9 0 with 0 worn 3;grant 2");
+            WishMarket x = Checks.market("market " + year + ";stall 8 0 0 0;person a 0 0 0;wish v 9 0 at 0;"
+                    + "wish w 9 0 with 0;wish u 9 0 with 0 worn 3;grant 2");
             for (int ended = 0; ended < 9; ended++) {
                 x.advance(year - 1);
                 Checks.due(x.wear(0), ended);
@@ -46,8 +46,8 @@ public final class DayBoundsTest {
 
     private static void fading() {
         Checks.sentence("If it is 10 then, the wish fades: it is in no stall and nobody owns it any more.");
-        WishMarket x = Checks.market("market 4;stall 2 9 0 0;person a 9 2 0;wish v 9 0 at 0 worn 9;wish w 9 0 with 0 worn 9;"
-                + "wish t 9 0 at 0 worn 8;wish u 9 0 with 0 worn 8;advance 3");
+        WishMarket x = Checks.market("market 4;stall 2 9 0 0;person a 9 2 0;wish v 9 0 at 0 worn 9;"
+                + "wish w 9 0 with 0 worn 9;wish t 9 0 at 0 worn 8;wish u 9 0 with 0 worn 8;advance 3");
         Checks.due(x.fadedCount(), 0);
         Checks.due(x.sellObstacle(3, 0), 2);
         x.advance(1);
@@ -76,8 +76,8 @@ public final class DayBoundsTest {
     }
 
     private static void candles() {
-        Checks.sentence("for each person, in the order of the indices, whose birthday is the day of the year, the number of "
-                + "candles increases by 1.");
+        Checks.sentence("for each person, in the order of the indices, whose birthday is the day of the year, the "
+                + "number of candles increases by 1.");
         WishMarket x = Checks.market("market 4;stall 8 0 0 0;person a 0 0 0;person b 0 3 99;person c 0 3 5");
         for (int day = 0; day < 13; day++) {
             // Birthdays are those of the days that have passed.
@@ -89,8 +89,8 @@ public final class DayBoundsTest {
     }
 
     private static void celebrators() {
-        Checks.sentence("If the person is a celebrator, and at least one wish can be granted to the person, the one with the "
-                + "greatest value is granted; of several the one with the smallest index.");
+        Checks.sentence("If the person is a celebrator, and at least one wish can be granted to the person, the one "
+                + "with the greatest value is granted; of several the one with the smallest index.");
         String h = "market 4;stall 8 0 0 0;person a 0 0 6 party;person b 0 0 9;";
         // The candle of the day counts; one more would be needed for the next strength.
         Checks.due(Checks.market(h + "wish w 9 7 with 0").advance(1), 1);
@@ -101,7 +101,8 @@ public final class DayBoundsTest {
         Checks.due(Checks.market(h + "advance 1").advance(300), 0);
         // A value of 0 is a value too.
         Checks.due(Checks.market(h + "wish w 1 0 with 0 worn 9").advance(1), 1);
-        WishMarket x = Checks.market(h + "wish v 19 0 with 0;wish w 40 0 with 0 worn 5;wish u 20 0 with 0;wish t 99 8 with 0");
+        WishMarket x = Checks.market(h + "wish v 19 0 with 0;wish w 40 0 with 0 worn 5;wish u 20 0 with 0;"
+                + "wish t 99 8 with 0");
         Checks.due(x.advance(1), 1);
         Checks.due(x.isGranted(1), true);
         Checks.due(x.happiness(0), 20);
@@ -112,56 +113,62 @@ public final class DayBoundsTest {
         Checks.due(x.advance(4), 1);
         Checks.due(x.isGranted(2), true);
         // Two celebrators on one day, and one on the last day of the year.
-        x = Checks.market("market 4;stall 8 0 0 0;person a 0 3 0 party;person b 0 3 0 party;wish v 9 0 with 1;wish w 8 0 with 0");
+        x = Checks.market("market 4;stall 8 0 0 0;person a 0 3 0 party;person b 0 3 0 party;wish v 9 0 with 1;"
+                + "wish w 8 0 with 0");
         Checks.due(x.advance(3), 0);
         Checks.due(x.advance(1), 2);
     }
 
     private static void shoppingLimits() {
-        Checks.sentence("each person, in the order of the indices, with a shopping limit greater than 0 looks at the wishes "
-                + "that the person can buy and whose price is not greater than the shopping limit.");
+        Checks.sentence("each person, in the order of the indices, with a shopping limit greater than 0 looks at the "
+                + "wishes that the person can buy and whose price is not greater than the shopping limit.");
         int[][] limitPriceBought = {{0, 1, 0}, {1, 1, 1}, {1, 2, 0}, {2, 1, 1}, {49, 50, 0}, {50, 50, 1}, {51, 50, 1},
             {98, 99, 0}, {99, 99, 1}, {200, 99, 1}};
         for (int[] row : limitPriceBought) {
-            WishMarket x = Checks.market("market 60;stall 8 0 50 0;person a 999 0 0;wish w " + row[1] + " 0 at 0;limit 0 "
-                    + row[0] + ";advance 1");
+            WishMarket x = Checks.market("market 60;stall 8 0 50 0;person a 999 0 0;wish w " + row[1]
+                    + " 0 at 0;limit 0 " + row[0] + ";advance 1");
             Checks.due(x.owner(0), row[2] == 1 ? 0 : NONE);
         }
         for (int limit : new int[] {197, 198}) {
-            WishMarket x = Checks.market("market 60;stall 8 0 50 100;person a 999 0 0;wish w 99 0 at 0;limit 0 " + limit);
+            WishMarket x = Checks.market("market 60;stall 8 0 50 100;person a 999 0 0;wish w 99 0 at 0;limit 0 "
+                    + limit);
             x.advance(1);
             Checks.due(x.owner(0), limit == 198 ? 0 : NONE);
         }
         // The coins may just be enough, and they may be one too few.
         for (int coins : new int[] {49, 50}) {
-            WishMarket x = Checks.market("market 60;stall 8 0 50 0;person a " + coins + " 0 0;wish w 50 0 at 0;limit 0 200");
+            WishMarket x = Checks.market("market 60;stall 8 0 50 0;person a " + coins
+                    + " 0 0;wish w 50 0 at 0;limit 0 200");
             x.advance(2);
             Checks.due(x.owner(0), coins == 50 ? 0 : NONE);
         }
     }
 
     private static void shoppingChoice() {
-        Checks.sentence("If there is one, the person buys the one with the lowest price; of several the one with the smallest "
-                + "index.");
+        Checks.sentence("If there is one, the person buys the one with the lowest price;"
+                + " of several the one with the smallest index.");
         WishMarket x = Checks.market("market 60;stall 8 0 0 0;stall 8 0 50 0;person a 999 0 0;wish s 12 0 at 1;"
-                + "wish t 10 0 with 0;wish u 22 0 at 0;wish v 11 0 at 1;wish w 22 0 at 0;limit 0 200;advance 1");
+                + "wish t 10 0 with 0;wish u 22 0 at 0;wish v 11 0 at 1;wish w 22 0 at 0;wish x 12 0 at 1;limit 0 200;"
+                + "advance 1");
         Checks.due(x.owner(2), 0);
         Checks.due(x.stallOf(3), 1);
         Checks.due(x.stallOf(4), 0);
         // Two prices that are only rounded to the same amount: 5.0 and 5.5.
-        x = Checks.market("market 60;stall 8 0 0 0;person a 999 0 0;wish v 11 0 at 0;wish w 10 0 at 0;limit 0 200;advance 1");
+        x = Checks.market("market 60;stall 8 0 0 0;person a 999 0 0;wish v 11 0 at 0;wish w 10 0 at 0;limit 0 200;"
+                + "advance 1");
         Checks.due(x.owner(0), 0);
         Checks.due(x.stallOf(1), 0);
     }
 
     private static void shoppingOnceADay() {
         Checks.sentence("This is one wish a day; its price follows the stars of the stall at this time.");
-        String h = "market 60;stall 8 0 # 0;person a 99 0 0;person b 99 0 0;wish v 50 0 at 0;wish w 50 0 at 0;wish u 50 0 at 0;";
+        String h = "market 60;stall 8 0 # 0;person a 99 0 0;person b 99 0 0;wish v 50 0 at 0;wish w 50 0 at 0;"
+                + "wish u 50 0 at 0;";
         WishMarket x = Checks.market(h.replace("#", "0") + "limit 0 200;advance 1");
         Checks.due(x.ownedCount(0), 1);
         x.advance(1);
         Checks.due(x.ownedCount(0), 2);
-        // The first purchase makes 52 stars of 51: person 1 has to pay one coin more than the limit.
+        // The first purchase makes two stars of one, and so a price of 26 of 25.
         x = Checks.market(h.replace("#", "1") + "limit 0 25;limit 1 25;advance 1");
         Checks.due(x.owner(0), 0);
         Checks.due(x.purchasePrice(0), 25);
@@ -176,8 +183,8 @@ public final class DayBoundsTest {
     }
 
     private static void bargainGain() {
-        Checks.sentence("For the first of them for which a stall to which it can be sold offers more than the purchase price "
-                + "(more than its value, if its owner did not buy it)");
+        Checks.sentence("For the first of them for which a stall to which it can be sold offers more than the "
+                + "purchase price (more than its value, if its owner did not buy it)");
         // Bought for 26; the other stall offers less, as much, and one coin more.
         int[][] starsOfferStall = {{0, 25, NONE}, {2, 26, NONE}, {4, 27, 1}};
         for (int[] row : starsOfferStall) {
@@ -191,7 +198,8 @@ public final class DayBoundsTest {
         // No offer is above the value, so what was not bought is not sold.
         for (int wear = 0; wear < 10; wear += 3) {
             WishMarket x = Checks.market("market 60;stall 8 999 50 0;person a 99 9 0 bargain;person b 99 9 0;"
-                    + "wish v 99 0 with 0 worn " + wear + ";wish w 1 0 with 0;wish u 9 0 at 0;buy 1 2;gift 2 0;advance 59");
+                    + "wish v 99 0 with 0 worn " + wear + ";wish w 1 0 with 0;wish u 9 0 at 0;buy 1 2;gift 2 0;"
+                    + "advance 59");
             Checks.due(x.ownedCount(0), 3);
         }
         // The star that a purchase brings makes the stall itself offer 50 for what it sold for 49; it needs the cash.
@@ -208,8 +216,8 @@ public final class DayBoundsTest {
     private static void bargainChoice() {
         Checks.sentence("looks at the wishes that the person owns, in the order of their indices.");
         // Wish 1 gains 20 and wish 2 gains 40; wish 0 gains nothing.
-        String h = "market 60;stall 8 0 0 0;stall 8 999 50 0;person a 999 9 0 bargain;wish u 40 0 at 1;wish v 40 0 at 0;"
-                + "wish w 80 0 at 0;buy 0 0;buy 0 2;buy 0 1";
+        String h = "market 60;stall 8 0 0 0;stall 8 999 50 0;person a 999 9 0 bargain;wish u 40 0 at 1;"
+                + "wish v 40 0 at 0;wish w 80 0 at 0;buy 0 0;buy 0 2;buy 0 1";
         WishMarket x = Checks.market(h);
         x.advance(1);
         Checks.due(x.owner(0), 0);
@@ -220,15 +228,17 @@ public final class DayBoundsTest {
         Checks.due(x.stallOf(2), 1);
         Checks.due(x.owner(0), 0);
         // Each of two bargainers sells one.
-        x = Checks.market(h.replace("bargain;", "bargain;person b 99 9 0 bargain;") + ";gift 1 1;sell 1 0;buy 1 1;advance 1");
+        x = Checks.market(h.replace("bargain;", "bargain;person b 99 9 0 bargain;") + ";gift 1 1;sell 1 0;buy 1 1;"
+                + "advance 1");
         Checks.due(x.stallOf(1), 1);
         Checks.due(x.stallOf(2), 1);
     }
 
     private static void bargainStalls() {
-        Checks.sentence("the person sells it to the stall with the greatest offer; of several the one with the smallest index.");
-        String h = "market 60;stall 8 0 0 0;stall # 30 0;stall 1 99 40 0;stall 1 99 40 0;stall 8 99 39 0;person a 99 9 0 bargain;"
-                + "wish u 50 0 at 0;buy 0 0";
+        Checks.sentence("the person sells it to the stall with the greatest offer;"
+                + " of several the one with the smallest index.");
+        String h = "market 60;stall 8 0 0 0;stall # 30 0;stall 1 99 40 0;stall 1 99 40 0;stall 8 99 39 0;"
+                + "person a 99 9 0 bargain;wish u 50 0 at 0;buy 0 0";
         // Bought for 25; the offers are 25, 40, 45, 45 and 44.
         WishMarket x = Checks.market(h.replace("#", "8 99"));
         x.advance(1);
@@ -260,7 +270,8 @@ public final class DayBoundsTest {
     private static void auctionDay() {
         Checks.sentence("Fourth, auctions: if the day of the year is the auction day");
         for (int day : new int[] {0, 1, 3}) {
-            WishMarket x = Checks.market("market 4;stall 8 0 0 0;person a 99 0 0;wish v 20 0 at 0;wish w 20 0 at 0;auction " + day);
+            WishMarket x = Checks.market("market 4;stall 8 0 0 0;person a 99 0 0;wish v 20 0 at 0;wish w 20 0 at 0;"
+                    + "auction " + day);
             for (int passed = 1; passed <= 8; passed++) {
                 x.advance(1);
                 Checks.due(x.ownedCount(0), passed > day + 4 ? 2 : passed > day ? 1 : 0);
@@ -273,11 +284,11 @@ public final class DayBoundsTest {
     }
 
     private static void auctionedWish() {
-        Checks.sentence("each stall, in the order of the indices, that contains at least one wish auctions the wish with the "
-                + "greatest value in it; of several the one with the smallest index.");
+        Checks.sentence("each stall, in the order of the indices, that contains at least one wish auctions the wish "
+                + "with the greatest value in it; of several the one with the smallest index.");
         String h = "market 9;stall 8 0 0 0;stall 8 0 0 0;stall 8 0 0 0;person a # 0 0;auction 0;wish t 50 0 with 0;";
-        WishMarket x = Checks.market(h.replace("#", "999") + "wish u 19 0 at 0;wish v 40 0 at 0 worn 5;wish w 20 0 at 0;"
-                + "wish s 1 0 at 2;advance 1");
+        WishMarket x = Checks.market(h.replace("#", "999") + "wish u 19 0 at 0;wish v 40 0 at 0 worn 5;"
+                + "wish w 20 0 at 0;wish s 1 0 at 2;advance 1");
         Checks.due(x.owner(2), 0);
         Checks.due(x.stallOf(1), 0);
         Checks.due(x.stallOf(3), 0);
@@ -311,10 +322,12 @@ public final class DayBoundsTest {
     }
 
     private static void bids() {
-        Checks.sentence("the bid is half of the coins of the person, rounded down, but not more than the value of the wish.");
+        Checks.sentence("the bid is half of the coins of the person, rounded down, but not more than the value of the "
+                + "wish.");
         int[][] coinsBid = {{10, 5}, {11, 5}, {18, 9}, {19, 9}, {20, 10}, {21, 10}, {999, 10}};
         for (int[] row : coinsBid) {
-            WishMarket x = Checks.market("market 9;stall 8 0 0 0;auction 0;person a " + row[0] + " 0 0;wish w 10 0 at 0;advance 1");
+            WishMarket x = Checks.market("market 9;stall 8 0 0 0;auction 0;person a " + row[0]
+                    + " 0 0;wish w 10 0 at 0;advance 1");
             Checks.due(x.purchasePrice(0), row[1]);
             Checks.due(x.coins(0), row[0] - row[1]);
             Checks.due(x.cash(0), row[1]);
@@ -323,32 +336,34 @@ public final class DayBoundsTest {
         int[][] coinsWinner = {{18, 20, 20, 1}, {20, 20, 18, 0}, {18, 18, 20, 2}, {21, 20, 999, 0}, {19, 18, 18, 0},
             {18, 19, 18, 0}};
         for (int[] row : coinsWinner) {
-            WishMarket x = Checks.market("market 9;stall 8 0 0 0;auction 0;person a " + row[0] + " 0 0;person b " + row[1]
-                    + " 0 0;person c " + row[2] + " 0 0;wish w 10 0 at 0;advance 1");
+            WishMarket x = Checks.market("market 9;stall 8 0 0 0;auction 0;person a " + row[0] + " 0 0;person b "
+                    + row[1] + " 0 0;person c " + row[2] + " 0 0;wish w 10 0 at 0;advance 1");
             Checks.due(x.owner(0), row[3]);
         }
     }
 
     private static void winningBid() {
         Checks.sentence("If it is at least half of the value of the wish, rounded down, and at least 1");
-        // Coins, base and wear, and whether the wish is sold: half of 10 and of 11 is 5, half of 1 is 0, and 0 is no bid.
+        // Coins, base and wear, and whether the wish is sold: half of 10 and of 11 is 5, half of 1 is 0, and 0 is no
+        // bid.
         int[][] rows = {{9, 10, 0, 0}, {10, 10, 0, 1}, {9, 11, 0, 0}, {10, 11, 0, 1}, {11, 12, 0, 0}, {12, 12, 0, 1},
-            {0, 1, 0, 0}, {1, 1, 0, 0}, {2, 1, 0, 1}, {1, 2, 0, 0}, {2, 2, 0, 1}, {2, 3, 0, 1}, {3, 4, 0, 0}, {4, 4, 0, 1},
+            {0, 1, 0, 0}, {1, 1, 0, 0}, {2, 1, 0, 1}, {1, 2, 0, 0}, {2, 2, 0, 1}, {2, 3, 0, 1}, {3, 4, 0, 0}, {4, 4,
+            0, 1},
             {999, 1, 1, 0}, {999, 9, 9, 0}, {999, 10, 9, 1}, {98, 99, 0, 1}, {97, 99, 0, 0}};
         for (int[] row : rows) {
-            WishMarket x = Checks.market("market 9;stall 8 0 50 100;auction 0;person a " + row[0] + " 0 0;wish w " + row[1]
-                    + " 0 at 0 worn " + row[2] + ";advance 1");
+            WishMarket x = Checks.market("market 9;stall 8 0 50 100;auction 0;person a " + row[0] + " 0 0;wish w "
+                    + row[1] + " 0 at 0 worn " + row[2] + ";advance 1");
             Checks.due(x.owner(0), row[3] == 1 ? 0 : NONE);
             Checks.due(x.stallOf(0), row[3] == 1 ? NONE : 0);
         }
     }
 
     private static void auctionEffects() {
-        Checks.sentence("the bid, the current day and the stall are the purchase price, the purchase day and the stall of the "
-                + "purchase; the stars do not change.");
+        Checks.sentence("the bid, the current day and the stall are the purchase price, the purchase day and the "
+                + "stall of the purchase; the stars do not change.");
         for (int stars : new int[] {0, 50}) {
-            WishMarket x = Checks.market("market 9;stall 8 0 9 0;stall 8 3 " + stars + " 100;person a 30 0 0;wish w 20 0 at 1;"
-                    + "auction 2;advance 3");
+            WishMarket x = Checks.market("market 9;stall 8 0 9 0;stall 8 3 " + stars + " 100;person a 30 0 0;"
+                    + "wish w 20 0 at 1;auction 2;advance 3");
             Checks.due(x.purchasePrice(0), 15);
             Checks.due(x.purchaseDay(0), 2);
             Checks.due(x.stars(1), stars);
@@ -381,15 +396,16 @@ public final class DayBoundsTest {
         int[][] coinsPercentTax = {{0, 50, 0}, {1, 50, 0}, {2, 50, 1}, {3, 50, 1}, {99, 1, 0}, {100, 1, 1}, {199, 1, 1},
             {999, 50, 499}, {999, 0, 0}, {999, 49, 489}, {19, 10, 1}, {20, 10, 2}};
         for (int[] row : coinsPercentTax) {
-            WishMarket x = Checks.market("market 4;stall 8 7 0 0;person a " + row[0] + " 0 0;tax 0 " + row[1] + ";advance 1");
+            WishMarket x = Checks.market("market 4;stall 8 7 0 0;person a " + row[0] + " 0 0;tax 0 " + row[1]
+                    + ";advance 1");
             Checks.due(x.coins(0), row[0] - row[2]);
             Checks.due(x.cash(0), 7 + row[2]);
         }
     }
 
     private static void taxedStall() {
-        Checks.sentence("the taxes go to the stall with the least cash at that time, of several to the one with the smallest "
-                + "index.");
+        Checks.sentence("the taxes go to the stall with the least cash at that time, of several to the one with the "
+                + "smallest index.");
         String h = "market 4;stall 8 # 0 0;stall 8 20 0 0;stall 8 20 0 0;tax 0 50;person a 20 0 0";
         int[] cash = {19, 20, 21};
         int[] stall = {0, 0, 1};
@@ -400,7 +416,8 @@ public final class DayBoundsTest {
             }
         }
         // Each person pays when the one before has paid: to stalls 1, 2, 0 and, all three being equal then, 0 again.
-        WishMarket x = Checks.market(h.replace("#", "21") + ";person b 21 0 0;person c 18 0 0;person d 2 0 0;advance 1");
+        WishMarket x = Checks.market(h.replace("#", "21") + ";person b 21 0 0;person c 18 0 0;person d 2 0 0;"
+                + "advance 1");
         Checks.due(x.cash(0), 21 + 9 + 1);
         Checks.due(x.cash(1), 30);
         Checks.due(x.cash(2), 30);
@@ -422,9 +439,10 @@ public final class DayBoundsTest {
     }
 
     private static void nextDay() {
-        Checks.sentence("Sixth, the current day increases by 1. If the day of the year is 0 then, a year has ended (section 4).");
-        WishMarket x = Checks.market("market 4;stall 8 0 50 0;person a 99 3 0 party;wish w 20 0 with 0 worn 9;wish v 20 0 at 0 worn 9;"
-                + "advance 3;limit 0 200");
+        Checks.sentence("Sixth, the current day increases by 1. If the day of the year is 0 then, a year has ended "
+                + "(section 4).");
+        WishMarket x = Checks.market("market 4;stall 8 0 50 0;person a 99 3 0 party;wish w 20 0 with 0 worn 9;"
+                + "wish v 20 0 at 0 worn 9;advance 3;limit 0 200");
         // On the last day of the year there are still a birthday and a purchase; only then the wear comes.
         Checks.due(x.day(), 3);
         Checks.due(x.fadedCount(), 0);

@@ -11,7 +11,8 @@ public final class GrammarTest {
      * that may be left out, W "worn" that may be left out, B an opening and E a closing bracket.
      */
     private static final String[][] ITEMS = {{"stall 1 0 0 0", "INNNN"}, {"person z 0 0 0 party bargain", "IANNNHH"},
-        {"person z 0 0 0 bargain party", "IANNNHH"}, {"wish z 1 0 at 0 worn 0", "IANNPNWN"}, {"wish z 1 0 with 0", "IANNPN"},
+        {"person z 0 0 0 bargain party", "IANNNHH"}, {"wish z 1 0 at 0 worn 0", "IANNPNWN"},
+        {"wish z 1 0 with 0", "IANNPN"},
         {"regret 0", "IN"}, {"fee 0", "IN"}, {"limit 0 0", "INN"}, {"buy 0 0", "INN"}, {"sell 1 0", "INN"},
         {"return 2", "IN"}, {"grant 1", "IN"}, {"rename 0 z", "INA"}, {"swap 1 3", "INN"}, {"gift 1 1", "INN"},
         {"sale 0 0", "INN"}, {"auction 0", "IN"}, {"tax 0 0", "INN"}, {"advance 1", "IN"},
@@ -58,7 +59,8 @@ public final class GrammarTest {
 
     private static boolean mayStand(char place, String token, String item) {
         boolean isWord = token.matches("[a-z]{1,7}");
-        boolean behind = token.equals(";") || item.startsWith("person") && (token.equals("party") || token.equals("bargain"))
+        boolean behind = token.equals(";") || item.startsWith("person") && (token.equals("party")
+                || token.equals("bargain"))
                 || item.startsWith("wish") && !item.contains("worn") && token.equals("worn");
         switch (place) {
             case 'N': return token.matches("[0-9]{1,3}");
@@ -109,13 +111,14 @@ public final class GrammarTest {
     }
 
     private static void everyByte() {
-        Checks.sentence("SYNTAX_ERROR: the byte starts no token");
         String setup = "market 9;stall 1 0 0 0;person a 0 0 0";
         for (char sign = 0; sign < 256; sign++) {
             if (sign == ' ') {
+                Checks.sentence("Spaces (byte 32) may stand between tokens.");
                 Checks.valid(sign + setup + sign + ";fee 0" + sign);
                 continue;
             }
+            Checks.sentence("SYNTAX_ERROR: the byte starts no token");
             // The mark of a test's error would itself be such a byte.
             String text = sign == '^' ? "" : String.valueOf(sign);
             if (sign != '^' && sign != 'm') {

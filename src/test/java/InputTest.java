@@ -156,6 +156,7 @@ public final class InputTest {
 
     /** A small setup after a large one, valid or not: its persons, stalls and wishes are new, and there are no others. */
     private static void nothingIsLeftOver() {
+        Checks.sentence("as a setup (section 6) and replaces the simulation by it.");
         String large = "market 5;stall 8 999 50 0;stall 8 0 9 0;stall 8 0 0 0;person q 99 0 0 party bargain;"
                 + "person r 999 0 0 bargain;wish m 9 0 with 0;wish n 99 0 at 0;wish o 9 0 with 1;"
                 + "wish p 9 0 with 0 worn 9;limit 0 9;limit 1 9;tax 1 9;auction 2;buy 1 1;advance 5;repeat 5(advance 300)";

@@ -24,7 +24,8 @@ public final class MarketBoundsTest {
     private static void days() {
         Checks.sentence("Days are numbered from 0.");
         Checks.due(Checks.market("market 4;stall 1 0 0 0;person a 0 0 0").day(), 0);
-        Checks.sentence("A year has a fixed number of days; the day of the year is the current day modulo this number.");
+        Checks.sentence("A year has a fixed number of days; the day of the year is the current day modulo this "
+                + "number.");
         for (int year : new int[] {4, 5, 59, 60}) {
             WishMarket x = Checks.market("market " + year + ";stall 1 0 0 0;person a 0 0 0");
             Checks.due(x.dayOfYear(), 0);
@@ -39,7 +40,8 @@ public final class MarketBoundsTest {
             Checks.due(x.yearLength(), year);
         }
         // There is no last day: a setup may bring 2000, and each call 300 more.
-        WishMarket x = Checks.market("market 7;stall 1 0 0 0;person a 0 0 0;repeat 5(advance 300);advance 300;advance 200");
+        WishMarket x = Checks.market("market 7;stall 1 0 0 0;person a 0 0 0;repeat 5(advance 300);advance 300;"
+                + "advance 200");
         for (int i = 1; i <= 400; i++) {
             x.advance(300);
             if (i % 40 == 0) {
@@ -57,7 +59,8 @@ public final class MarketBoundsTest {
                 personsAndStalls(persons, stalls);
             }
         }
-        WishMarket x = Checks.market("market 9;person a 1 0 0;stall 1 10 0 0;person b 2 0 0;person c 3 0 0;stall 1 20 0 0");
+        WishMarket x = Checks.market("market 9;person a 1 0 0;stall 1 10 0 0;person b 2 0 0;person c 3 0 0;"
+                + "stall 1 20 0 0");
         for (int p = 0; p < 3; p++) {
             Checks.due(x.coins(p), p + 1);
             Checks.due(x.personLetter(p, 0), 'a' + p);
@@ -178,8 +181,8 @@ public final class MarketBoundsTest {
     private static void capacities() {
         Checks.sentence("A stall has a capacity (the greatest number of wishes in it)");
         for (int capacity = 1; capacity <= 8; capacity++) {
-            StringBuilder text = new StringBuilder("market 9;stall " + capacity + " 99 0 0;stall 8 0 0 0;person a 99 0 0"
-                    + ";wish x 2 0 with 0;wish y 20 0 at 0;buy 0 1");
+            StringBuilder text = new StringBuilder("market 9;stall " + capacity + " 99 0 0;stall 8 0 0 0;"
+                    + "person a 99 0 0;wish x 2 0 with 0;wish y 20 0 at 0;buy 0 1");
             for (int i = 1; i < capacity; i++) {
                 text.append(";wish w").append((char) ('a' + i)).append(" 9 0 at 0");
             }
@@ -200,7 +203,7 @@ public final class MarketBoundsTest {
     }
 
     private static void starBounds() {
-        Checks.sentence("A stall has a capacity, cash, stars from 0 to 50, and a margin in percent.");
+        Checks.sentence("cash, stars from 0 to 50, and a margin in percent.");
         WishMarket x = Checks.market("market 9;stall 8 99 50 0;stall 8 99 0 0;stall 8 99 49 0;person a 999 0 0;"
                 + "wish a 9 0 at 0;wish b 9 0 at 1;wish c 9 0 at 2;wish d 9 0 at 2");
         int[] after = {50, 1, 50};
@@ -242,7 +245,8 @@ public final class MarketBoundsTest {
     }
 
     private static void wishNumbers() {
-        Checks.sentence("A wish has a name of 1 to 6 letters a to z, a base value, a strength, and a wear from 0 to 10.");
+        Checks.sentence("A wish has a name of 1 to 6 letters a to z, a base value, a strength, and a wear from 0 to "
+                + "10.");
         WishMarket x = Checks.market("market 4;stall 8 0 0 0;person a 0 0 0;wish a 1 0 at 0;wish b 99 99 at 0 worn 9;"
                 + "wish c 50 50 with 0 worn 0");
         int[][] due = {{1, 0, 0}, {99, 99, 9}, {50, 50, 0}};
@@ -303,16 +307,17 @@ public final class MarketBoundsTest {
 
     private static void prices() {
         Checks.sentence("divided by 100000 and rounded down; it is 1 if the result is 0.");
-        // 0.05, 0.9975, 1, 1.995, 2, 2.98, 198
+        // 0.05, 0.9975, 1, 1.995, 2, 3, 9.99999, 198
         Checks.due(price("0 0", "1 0 at 0 worn 9"), 1);
         Checks.due(price("7 5", "5 0 at 0 worn 7"), 1);
         Checks.due(price("0 0", "2 0 at 0"), 1);
         Checks.due(price("7 75", "2 0 at 0"), 1);
         Checks.due(price("0 0", "4 0 at 0"), 2);
         Checks.due(price("0 0", "6 0 at 0 worn 0"), 3);
+        Checks.due(price("41 11", "11 0 at 0 worn 1"), 9);
         Checks.due(price("50 100", "99 0 at 0"), 198);
-        Checks.sentence("The price of a wish in a stall is the base value, times 10 minus the wear, times 100 plus the "
-                + "margin, times 50 plus the stars");
+        Checks.sentence("The price of a wish in a stall is the base value, times 10 minus the wear, times 100 plus "
+                + "the margin, times 50 plus the stars");
         for (int base : new int[] {1, 3, 50, 99}) {
             for (int wear : new int[] {0, 1, 5, 9}) {
                 for (int stars : new int[] {0, 1, 33, 49, 50}) {
@@ -333,8 +338,8 @@ public final class MarketBoundsTest {
     }
 
     private static void offers() {
-        Checks.sentence("The offer of a stall for a wish is the base value, times 10 minus the wear, times 50 plus the "
-                + "stars, divided by 1000 and rounded down.");
+        Checks.sentence("The offer of a stall for a wish is the base value, times 10 minus the wear, times 50 plus "
+                + "the stars, divided by 1000 and rounded down.");
         // 0.05, 0.5, 0.999, 1, 1.998, 2, 49.5, 99; the margin does not count.
         Checks.due(offer(0, "1 0 with 0 worn 9"), 0);
         Checks.due(offer(0, "1 0 with 0"), 0);
@@ -354,16 +359,16 @@ public final class MarketBoundsTest {
     }
 
     private static void refunds() {
-        Checks.sentence("The refund for a wish is its purchase price times 100 minus the return fee, divided by 100 and "
-                + "rounded down.");
+        Checks.sentence("The refund for a wish is its purchase price times 100 minus the return fee, divided by 100 "
+                + "and rounded down.");
         // The prices 1, 2, 10, 99 and 198, with the least, the greatest and the ordinary fee.
         int[][] dues = {{0, 1, 2, 10, 99, 198}, {1, 0, 1, 9, 98, 196}, {10, 0, 1, 9, 89, 178}, {49, 0, 1, 5, 50, 100},
             {50, 0, 1, 5, 49, 99}};
         String[] wishes = {"1 0 at 0", "1 0 at 1", "10 0 at 0", "99 0 at 0", "99 0 at 1"};
         for (int[] due : dues) {
             for (int i = 0; i < wishes.length; i++) {
-                WishMarket x = Checks.market("market 4;stall 1 0 50 0;stall 1 0 50 100;person a 999 0 0;wish w " + wishes[i]
-                        + ";fee " + due[0] + ";buy 0 0");
+                WishMarket x = Checks.market("market 4;stall 1 0 50 0;stall 1 0 50 100;person a 999 0 0;wish w "
+                        + wishes[i] + ";fee " + due[0] + ";buy 0 0");
                 Checks.due(x.refund(0), due[i + 1]);
             }
         }

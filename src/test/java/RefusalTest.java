@@ -5,8 +5,8 @@ public final class RefusalTest {
     private static final int MIN = Integer.MIN_VALUE;
     private static final int MAX = Integer.MAX_VALUE;
     /** Person 1 has few coins; stall 1 is full; wish 1 is too strong for its owner, whose birthday is today. */
-    private static final String MARKET = "market 9;stall 3 60 10 20;stall 1 9 0 0;person a 90 0 5 party;person b 3 4 9 bargain;"
-            + "wish v 20 0 at 0;wish w 30 9 with 0;wish u 9 0 at 1;limit 0 9;tax 3 10;auction 7";
+    private static final String MARKET = "market 9;stall 3 60 10 20;stall 1 9 0 0;person a 90 0 5 party;"
+            + "person b 3 4 9 bargain;wish v 20 0 at 0;wish w 30 9 with 0;wish u 9 0 at 1;limit 0 9;tax 3 10;auction 7";
 
     public static void main(String[] args) {
         parsing();
@@ -22,7 +22,8 @@ public final class RefusalTest {
         Checks.end();
     }
 
-    /** An object with everything that could be lost: an error, bytes in the buffer, output, a history, a saved state. */
+    /** An object with everything that could be lost: an error, bytes in the buffer, output, a history,
+            a saved state. */
     private static WishMarket busy(String items) {
         WishMarket x = Checks.market(MARKET + items);
         x.saveState(1);
@@ -100,7 +101,8 @@ public final class RefusalTest {
         Checks.sentence("Throws `IllegalArgumentException` if buyObstacle() is not 0");
         refusedFor(1, "", x -> x.buyObstacle(0, 1), x -> x.buy(0, 1));
         refusedFor(2, "", x -> x.buyObstacle(1, 0), x -> x.buy(1, 0));
-        refusedFor(3, ";wish q 1 0 with 0;wish r 1 0 with 0;wish s 1 0 with 0", x -> x.buyObstacle(0, 0), x -> x.buy(0, 0));
+        refusedFor(3, ";wish q 1 0 with 0;wish r 1 0 with 0;wish s 1 0 with 0", x -> x.buyObstacle(0, 0),
+                x -> x.buy(0, 0));
         refused(Checks.INDEX, x -> x.buy(2, 0));
         refused(Checks.INDEX, x -> x.buy(0, 3));
         refused(Checks.INDEX, x -> x.buy(-1, 0));
@@ -184,9 +186,11 @@ public final class RefusalTest {
 
     private static void unloaded() {
         Checks.sentence("throw IllegalStateException if no setup has been loaded.");
-        Checks.CallOn[] calls = {x -> x.advance(1), x -> x.buy(0, 0), x -> x.sell(0, 0), x -> x.returnWish(0), x -> x.grant(0),
+        Checks.CallOn[] calls = {x -> x.advance(1), x -> x.buy(0, 0), x -> x.sell(0, 0), x -> x.returnWish(0),
+                x -> x.grant(0),
             x -> x.setLimit(0, 0), x -> x.setMargin(0, 0), x -> x.undo(), x -> x.saveState(0), x -> x.restoreState(0),
-            x -> x.writeStall(0), x -> x.writePerson(0), x -> x.coinsAfter(0, 1), x -> x.valueAfter(0, 1), x -> x.day()};
+            x -> x.writeStall(0), x -> x.writePerson(0), x -> x.coinsAfter(0, 1), x -> x.valueAfter(0, 1),
+            x -> x.day()};
         for (Checks.CallOn call : calls) {
             Supplier<WishMarket> refusing = () -> {
                 WishMarket x = new WishMarket();
@@ -205,8 +209,8 @@ public final class RefusalTest {
     }
 
     private static void firstListed() {
-        Checks.sentence("If several exceptions apply to a call, the exception that is listed first in its documentation is "
-                + "thrown.");
+        Checks.sentence("If several exceptions apply to a call, the exception that is listed first in its "
+                + "documentation is thrown.");
         WishMarket none = new WishMarket();
         Checks.thrown(Checks.STATE, () -> none.coinsAfter(-1, -1));
         Checks.thrown(Checks.STATE, () -> none.valueAfter(99, 301));

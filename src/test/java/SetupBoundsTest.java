@@ -27,7 +27,10 @@ public final class SetupBoundsTest {
         laterPasses();
         simulatedDays();
         missingAtTheEnd();
+        firstError();
         smallestCode();
+        inTheirOrder();
+        withoutSettings();
         Checks.end();
     }
 
@@ -47,8 +50,8 @@ public final class SetupBoundsTest {
         // As 32 bits these would be 0 and 9.
         Checks.syntaxError(MARKET + "person c ^4294967296 0 0");
         Checks.syntaxError("market ^4294967305;stall 1 0 0 0;person a 0 0 0");
-        Checks.sentence("A word ends at the first byte that is not a lower-case letter, and a number ends at the first byte "
-                + "that is not a digit.");
+        Checks.sentence("A word ends at the first byte that is not a lower-case letter, and a number ends at the "
+                + "first byte that is not a digit.");
         Checks.valid("market9;stall1 0 0 0;person a0 0 0party bargain;wish abcdef1 0at0worn0;repeat1(fee0)");
         Checks.syntaxError(MARKET + "person c^A 0 0 0");
         Checks.syntaxError(MARKET + "person c^` 0 0 0");
@@ -106,7 +109,8 @@ public final class SetupBoundsTest {
         range(MARKET + "stall 1 # 0 0", 0, 999);
         range(MARKET + "stall 1 0 # 0", 0, 50);
         range(MARKET + "stall 1 0 0 #", 0, 100);
-        Checks.sentence("coins of \"person\" 0 to 999; birthday 0 to the number of days of a year minus 1; candles 0 to 99");
+        Checks.sentence("coins of \"person\" 0 to 999, of \"limit\" 0 to 200;"
+                + " birthday 0 to the number of days of a year minus 1; candles 0 to 99");
         range(MARKET + "person c # 0 0", 0, 999);
         range(MARKET + "person c 0 # 0", 0, 8);
         range(MARKET + "person c 0 0 #", 0, 99);
@@ -140,7 +144,6 @@ public final class SetupBoundsTest {
         Checks.sentence("of \"regret\" 0 to 30, of \"advance\" 1 to 300");
         range(MARKET + "regret #", 0, 30);
         range(MARKET + "advance #", 1, 300);
-        Checks.sentence("of \"limit\" 0 to 200");
         range(MARKET + "limit 0 #", 0, 200);
         Checks.sentence("percent of \"fee\" and \"tax\" 0 to 50, of \"sale\" 0 to 100; count 1 to 5");
         range(MARKET + "fee #", 0, 50);
@@ -188,8 +191,8 @@ public final class SetupBoundsTest {
     }
 
     private static void takenNames() {
-        Checks.sentence("CONFLICT_ERROR: the name of another person or of another wish (also with \"rename\"; the name that "
-                + "the wish has already is allowed there)");
+        Checks.sentence("CONFLICT_ERROR: the name of another person or of another wish (also with \"rename\";"
+                + " the name that the wish has already is allowed there)");
         for (int w = 0; w < 3; w++) {
             String[] names = {"x", "y", "z"};
             for (int other = 0; other < 3; other++) {
@@ -209,6 +212,7 @@ public final class SetupBoundsTest {
         }
         Checks.conflictError(MARKET + "person ^a 0 0 0");
         Checks.conflictError(MARKET + "person ^b 0 0 0");
+        Checks.conflictError(STOCK + "rename 0^y");
         // Granted and faded wishes are wishes still.
         Checks.conflictError(OWNED + "grant 0;wish ^x 1 0 at 0");
         Checks.conflictError(OWNED + "repeat 3(advance 30);rename 0 w;wish ^y 1 0 at 0");
@@ -228,7 +232,8 @@ public final class SetupBoundsTest {
     private static void fullPlaces() {
         Checks.sentence("the stall of \"at\" that is full, the person of \"with\" who owns 4 wishes");
         for (int capacity = 1; capacity <= 8; capacity++) {
-            StringBuilder text = new StringBuilder("market 9;stall " + capacity + " 0 0 0;stall 1 0 0 0;person a 0 0 0");
+            StringBuilder text = new StringBuilder("market 9;stall " + capacity + " 0 0 0;stall 1 0 0 0;"
+                    + "person a 0 0 0");
             for (int i = 0; i < capacity; i++) {
                 text.append(";wish w").append((char) ('a' + i)).append(" 1 0 at 0");
             }
@@ -267,8 +272,10 @@ public final class SetupBoundsTest {
     }
 
     private static void swaps() {
-        Checks.sentence("the first wish of \"swap\" that nobody owns, the second one that nobody owns or that is the first one");
-        String h = MARKET + "wish x 9 0 with 0;wish y 9 0 with 1;wish z 9 0 at 0;wish g 9 0 with 0;wish f 9 0 with 0 worn 9;";
+        Checks.sentence("the first wish of \"swap\" that nobody owns, the second one that nobody owns or that is the "
+                + "first one");
+        String h = MARKET + "wish x 9 0 with 0;wish y 9 0 with 1;wish z 9 0 at 0;wish g 9 0 with 0;"
+                + "wish f 9 0 with 0 worn 9;";
         Checks.valid(h + "swap 0 1;swap 1 0;swap 0 3");
         Checks.conflictError(h + "swap ^2 0");
         Checks.conflictError(h + "swap ^2 2");
@@ -283,12 +290,13 @@ public final class SetupBoundsTest {
         Checks.conflictError(h + "advance 9;swap ^4 0");
         Checks.conflictError(h + "advance 9;swap 0 ^4");
         // Two persons with four wishes each may swap.
-        Checks.valid(MARKET + "repeat 1(wish p 1 0 with 0;wish q 1 0 with 0;wish r 1 0 with 0;wish s 1 0 with 0;wish t 1 0 with 1;"
-                + "wish u 1 0 with 1;wish v 1 0 with 1;wish w 1 0 with 1;swap 0 4;swap 7 3)");
+        Checks.valid(MARKET + "repeat 1(wish p 1 0 with 0;wish q 1 0 with 0;wish r 1 0 with 0;wish s 1 0 with 0;"
+                + "wish t 1 0 with 1;wish u 1 0 with 1;wish v 1 0 with 1;wish w 1 0 with 1;swap 0 4;swap 7 3)");
     }
 
     private static void gifts() {
-        Checks.sentence("the wish of \"gift\" that nobody owns, the person of \"gift\" who is its owner or owns 4 wishes");
+        Checks.sentence("the wish of \"gift\" that nobody owns, the person of \"gift\" who is its owner or owns 4 "
+                + "wishes");
         String h = MARKET + "wish x 9 0 with 0;wish y 9 0 with 1;wish z 9 0 at 0;wish p 1 0 with 1;wish q 1 0 with 1;";
         Checks.valid(h + "gift 0 1;gift 0 0;gift 1 0");
         Checks.conflictError(h + "gift ^2 0");
@@ -304,7 +312,8 @@ public final class SetupBoundsTest {
     }
 
     private static void tooMany() {
-        Checks.sentence("LIMIT_ERROR: the word \"stall\" of a 6th stall, \"person\" of a 7th person, \"wish\" of a 17th wish");
+        Checks.sentence("LIMIT_ERROR: the word \"stall\" of a 6th stall, \"person\" of a 7th person, \"wish\" of a "
+                + "17th wish");
         String stalls = "market 9;person a 9 0 0" + Setups.stalls(5);
         Checks.valid(stalls);
         for (String end : new String[] {"", " ", " 9", " 1 0 0 0", ";", " ?", "("}) {
@@ -321,8 +330,8 @@ public final class SetupBoundsTest {
     private static void nestedRepeats() {
         Checks.sentence("the word \"repeat\" that is in the brackets of three others");
         Checks.valid(MARKET + "repeat 1(repeat 1(repeat 1(fee 1)))");
-        Checks.valid(MARKET + "repeat 2(repeat 2(repeat 2(fee 1);repeat 2(fee 1));repeat 2(repeat 2(fee 1)));repeat 2(repeat 2("
-                + "repeat 2(fee 1)))");
+        Checks.valid(MARKET + "repeat 2(repeat 2(repeat 2(fee 1);repeat 2(fee 1));repeat 2(repeat 2(fee 1)));"
+                + "repeat 2(repeat 2(repeat 2(fee 1)))");
         for (String end : new String[] {"", " ", " 1(fee 1))))", " 9", "(", " ?"}) {
             Checks.limitError(MARKET + "repeat 1(repeat 1(repeat 1(^repeat" + end);
             Checks.limitError(MARKET + "repeat 1(repeat 1(repeat 1(fee 1;^repeat" + end);
@@ -336,15 +345,18 @@ public final class SetupBoundsTest {
         Checks.sentence("\"repeat\" lets the items in the brackets take effect several times");
         for (int count = 1; count <= 5; count++) {
             Checks.due(Checks.market(MARKET + "repeat " + count + "(advance 1)").day(), count);
-            Checks.due(Checks.market(MARKET + "repeat " + count + "(advance 1;advance 10);advance 100").day(), 11 * count + 100);
-            Checks.due(Checks.market(MARKET + "repeat " + count + "(repeat 5(repeat " + count + "(advance 1);advance 10))").day(),
+            Checks.due(Checks.market(MARKET + "repeat " + count + "(advance 1;advance 10);advance 100").day(),
+                    11 * count + 100);
+            Checks.due(Checks.market(MARKET + "repeat " + count + "(repeat 5(repeat " + count
+                    + "(advance 1);advance 10))").day(),
                     count * 5 * (count + 10));
         }
         Checks.due(Checks.market(MARKET + "repeat 5(repeat 5(repeat 5(advance 1)))").day(), 125);
     }
 
     private static void laterPasses() {
-        Checks.sentence("its text is parsed again each time, so that an error can occur in a later pass, at its token.");
+        Checks.sentence("its text is parsed again each time, so that an error can occur in a later pass, at its "
+                + "token.");
         for (int stalls = 0; stalls <= 5; stalls++) {
             for (int count = 1; count <= 5; count++) {
                 String before = "market 9;person a 99 0 0" + Setups.stalls(stalls) + ";repeat " + count + "(";
@@ -356,7 +368,8 @@ public final class SetupBoundsTest {
                 }
             }
         }
-        // Each pass costs five coins, a price of 9 less an offer of 4, so the coins tell in which pass they are too few.
+        // Each pass costs five coins, a price of 9 less an offer of 4, so the coins tell in which pass they are too
+        // few.
         for (int failing = 1; failing <= 5; failing++) {
             String before = "market 9;stall 8 99 0 100;stall 8 99 0 100;person a " + (8 + 5 * (failing - 1))
                     + " 0 0;wish w 9 0 at 0;repeat 1(repeat ";
@@ -415,6 +428,19 @@ public final class SetupBoundsTest {
         Checks.valid("market 9;repeat 1(stall 1 0 0 0;repeat 1(person a 0 0 0))");
     }
 
+    private static void firstError() {
+        Checks.sentence("Parsing stops at the first token that has an error.");
+        Checks.limitError("market 9" + Setups.stalls(5) + ";^stall 0 ? 1234");
+        Checks.conflictError(MARKET + "person ^a 1000 9 ?");
+        Checks.rangeError(MARKET + "person c 0 ^9 100 ?;stall");
+        Checks.rangeError(MARKET + "wish abcdef ^0 ? at 9");
+        Checks.conflictError(STOCK + "sell 0 ^0;advance 301;?");
+        Checks.limitError(MARKET + "repeat 5(advance 300);repeat 2(advance ^300;fee 50);?");
+        Checks.rangeError(MARKET + "repeat 5(advance 300);repeat 2(advance 300;fee ^51);?");
+        Checks.rangeError("market ^61;?");
+        Checks.syntaxError("market 9^?;stall 9");
+    }
+
     private static void smallestCode() {
         Checks.sentence("If several errors apply to a token, the error with the smallest code is reported.");
         // Not allowed here, and one too many.
@@ -438,5 +464,38 @@ public final class SetupBoundsTest {
         Checks.rangeError(STOCK + "buy 0 ^3");
         Checks.rangeError(OWNED + "sell 0 ^2");
         Checks.rangeError(OWNED + "gift 0 ^2");
+    }
+
+    private static void inTheirOrder() {
+        Checks.sentence("The items take effect in their order.");
+        Checks.rangeError("market 9;wish w 1 0 at ^0;stall 1 0 0 0;person a 0 0 0");
+        Checks.rangeError("market 9;stall 1 0 0 0;limit ^0 9;person a 0 0 0");
+        Checks.rangeError(MARKET + "wish w 1 0 at 0;buy 0 ^1;wish v 1 0 at 0");
+        Checks.conflictError(OWNED + "wish w 1 0 with 0;wish v 1 0 with ^0;grant 0");
+        Checks.valid(OWNED + "wish w 1 0 with 0;grant 0;wish v 1 0 with 0");
+        Checks.valid(BOUGHT + "advance 4;regret 4;return 0;regret 3");
+        Checks.conflictError(BOUGHT + "advance 4;return ^0;regret 4");
+        WishMarket x = Checks.market(STOCK + "sale 0 100;buy 0 0;sale 0 0;buy 0 1;fee 50;return 0");
+        Checks.due(x.margin(0), 0);
+        Checks.due(x.coins(0), 99 - 9 + 4 - 4);
+    }
+
+    private static void withoutSettings() {
+        Checks.sentence("The number of regret days is 3 and the return fee is 10 percent, if \"regret\" and \"fee\" "
+                + "do not set them. The shopping limits are 0 at first");
+        Checks.valid(BOUGHT + "advance 3;return 0");
+        Checks.conflictError(BOUGHT + "advance 4;return ^0");
+        WishMarket x = Checks.market("market 60;stall 8 0 50 0;person a 999 59 0;wish w 99 0 at 0;wish v 1 0 at 0;"
+                + "buy 0 0");
+        Checks.due(x.refund(0), 89);
+        Checks.due(x.shoppingLimit(0), 0);
+        Checks.sentence("without them there are no auctions and no taxes.");
+        x.advance(59);
+        x.advance(1);
+        Checks.due(x.coins(0), 999 - 99);
+        Checks.due(x.stallOf(1), 0);
+        Checks.sentence("its wear is 0 without \"worn\".");
+        Checks.due(Checks.market(MARKET + "wish w 1 0 at 0").wear(0), 0);
+        Checks.due(Checks.market(MARKET + "wish w 1 0 with 0").wear(0), 0);
     }
 }

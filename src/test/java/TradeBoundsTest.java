@@ -113,14 +113,14 @@ public final class TradeBoundsTest {
     private static void buyEffects() {
         Checks.sentence("the stars of the stall increase by 1, but not above 50.");
         for (int stars : new int[] {0, 1, 48, 49, 50}) {
-            WishMarket x = Checks.market("market 4;stall 8 7 " + stars + " 0;stall 8 0 9 0;person a 99 0 0;wish w 90 0 at 0"
-                    + ";wish v 90 0 at 0;advance 2");
+            WishMarket x = Checks.market("market 4;stall 8 7 " + stars + " 0;stall 8 0 9 0;person a 99 0 0;"
+                    + "wish w 90 0 at 0;wish v 90 0 at 0;advance 2");
             int price = 90 * (50 + stars) / 100;
             Checks.due(x.buy(0, 0), price);
             Checks.due(x.stars(0), Math.min(50, stars + 1));
             Checks.due(x.stars(1), 9);
-            Checks.sentence("The person pays the price to the stall and owns the wish; the purchase day, the purchase "
-                    + "price and the stall are remembered");
+            Checks.sentence("The person pays the price to the stall and owns the wish;"
+                    + " the purchase day, the purchase price and the stall are remembered");
             Checks.due(x.coins(0), 99 - price);
             Checks.due(x.cash(0), 7 + price);
             Checks.due(x.owner(0), 0);
@@ -173,7 +173,8 @@ public final class TradeBoundsTest {
     }
 
     private static void sellEffects() {
-        Checks.sentence("The stall pays the offer to the owner, the wish is in the stall, and its purchase is forgotten.");
+        Checks.sentence("The stall pays the offer to the owner, the wish is in the stall, and its purchase is "
+                + "forgotten.");
         for (int stars : new int[] {0, 50}) {
             WishMarket x = Checks.market("market 4;stall 8 99 0 0;stall 8 99 " + stars + " 0;person a 99 0 0;"
                     + "wish w 90 0 at 0;buy 0 0");
@@ -194,7 +195,8 @@ public final class TradeBoundsTest {
         String h = "market 9;regret 0;stall 1 99 50 0;person a 99 0 0;person b 99 0 0;wish w 9 0 ";
         String[] without = {"at 0", "with 0", "at 0;buy 0 0;sell 0 0", "at 0;buy 0 0;return 0", "at 0;buy 0 0;gift 0 1",
             "at 0;buy 0 0;gift 0 1;gift 0 0", "at 0;buy 0 0;wish v 9 0 with 1;swap 0 1",
-            "at 0;buy 0 0;wish v 9 0 with 0;swap 0 1", "at 0;buy 0 0;wish v 9 0 with 1;swap 1 0", "at 0;buy 0 0;grant 0",
+            "at 0;buy 0 0;wish v 9 0 with 0;swap 0 1", "at 0;buy 0 0;wish v 9 0 with 1;swap 1 0", "at 0;buy 0 0;"
+            + "grant 0",
             "at 0 worn 9;buy 0 0;advance 9", "with 0 worn 9;advance 9"};
         for (String text : without) {
             giveBack(h + text, 0, 1);
@@ -212,8 +214,8 @@ public final class TradeBoundsTest {
         Checks.sentence("2 the current day minus the purchase day is greater than the number of regret days");
         for (int bought : new int[] {0, 7}) {
             for (int regret : new int[] {0, 1, 3, 29, 30}) {
-                String h = "market 60;regret " + regret + ";stall 1 99 0 0;person a 99 0 0;wish w 9 0 at 0;wish v 9 0 with 0"
-                        + (bought == 0 ? "" : ";advance " + bought) + ";buy 0 0";
+                String h = "market 60;regret " + regret + ";stall 1 99 0 0;person a 99 0 0;wish w 9 0 at 0;"
+                        + "wish v 9 0 with 0" + (bought == 0 ? "" : ";advance " + bought) + ";buy 0 0";
                 String last = regret == 0 ? "" : ";advance " + regret;
                 giveBack(h + last, 0, 0);
                 giveBack(h + ";advance " + (regret + 1), 0, 2);
@@ -230,8 +232,8 @@ public final class TradeBoundsTest {
 
     private static void returnCapacity() {
         Checks.sentence("3 the stall where it was bought contains as many wishes as its capacity");
-        String h = "market 9;stall 2 0 50 0;stall 1 0 0 0;person a 99 0 0;wish w 20 0 at 0;wish v 3 0 with 0;wish u 9 0 at 0;"
-                + "buy 0 0";
+        String h = "market 9;stall 2 0 50 0;stall 1 0 0 0;person a 99 0 0;wish w 20 0 at 0;wish v 3 0 with 0;"
+                + "wish u 9 0 at 0;buy 0 0";
         giveBack(h, 0, 0);
         // Only 17 coins are left there: a full stall is told before too little cash.
         giveBack(h + ";sell 1 0", 0, 3);
@@ -242,7 +244,8 @@ public final class TradeBoundsTest {
 
     private static void returnCash() {
         Checks.sentence("4 the cash of this stall is less than the refund.");
-        String h = "market 9;stall 8 0 50 0;stall 8 99 0 0;person a 99 0 0;wish w 20 0 at 0;wish v # 0 with 0;buy 0 0;sell 1 0";
+        String h = "market 9;stall 8 0 50 0;stall 8 99 0 0;person a 99 0 0;wish w 20 0 at 0;wish v # 0 with 0;buy 0 0;"
+                + "sell 1 0";
         giveBack(h.replace("#", "3"), 0, 4);
         giveBack(h.replace("#", "2"), 0, 0);
         giveBack(h.replace("#", "1"), 0, 0);
@@ -251,7 +254,8 @@ public final class TradeBoundsTest {
         Checks.due(x.returnWish(0), 18);
         Checks.due(x.cash(0), 0);
         // A refund of 0 needs no cash.
-        WishMarket y = Checks.market("market 9;stall 8 0 50 0;person a 9 0 0;wish w 1 0 at 0;wish v 1 0 with 0;buy 0 0;sell 1 0");
+        WishMarket y = Checks.market("market 9;stall 8 0 50 0;person a 9 0 0;wish w 1 0 at 0;wish v 1 0 with 0;"
+                + "buy 0 0;sell 1 0");
         Checks.due(y.cash(0), 0);
         Checks.due(y.returnWish(0), 0);
     }
@@ -260,8 +264,8 @@ public final class TradeBoundsTest {
         Checks.sentence("its purchase is forgotten, and the stars of the stall decrease by 2, but not below 0.");
         for (int stars = 0; stars <= 50; stars++) {
             // An auction leaves the stars, so the stall has them all when the wish comes back.
-            WishMarket x = Checks.market("market 9;stall 8 9 " + stars + " 0;stall 8 0 7 0;person a 40 0 0;wish w 20 0 at 0;"
-                    + "auction 0;advance 1");
+            WishMarket x = Checks.market("market 9;stall 8 9 " + stars + " 0;stall 8 0 7 0;person a 40 0 0;"
+                    + "wish w 20 0 at 0;auction 0;advance 1");
             Checks.due(x.stars(0), stars);
             Checks.due(x.purchasePrice(0), 20);
             Checks.due(x.returnWish(0), 18);
@@ -278,7 +282,8 @@ public final class TradeBoundsTest {
     private static void grantNobodys() {
         Checks.sentence("To grant a wish: 1 nobody owns the wish");
         String h = "market 4;stall 8 99 0 0;person a 99 0 0;wish w 9 # ";
-        for (String elsewhere : new String[] {"at 0", "with 0;sell 0 0", "at 0;buy 0 0;return 0", "with 0 worn 9;advance 4"}) {
+        for (String elsewhere : new String[] {"at 0", "with 0;sell 0 0", "at 0;buy 0 0;return 0", "with 0 worn 9;"
+                + "advance 4"}) {
             grant(h.replace("#", "0") + elsewhere, 0, 1);
             // Also on another day and with too few candles.
             grant(h.replace("#", "99") + elsewhere + ";advance 1", 0, 1);
@@ -322,8 +327,8 @@ public final class TradeBoundsTest {
     }
 
     private static void grantEffects() {
-        Checks.sentence("The value of the wish is added to the happiness of the owner, and the wish is granted; nobody owns "
-                + "it any more.");
+        Checks.sentence("The value of the wish is added to the happiness of the owner, and the wish is granted;"
+                + " nobody owns it any more.");
         WishMarket x = Checks.market("market 4;stall 8 99 0 0;person a 99 0 0;person b 9 0 0;wish u 99 0 with 0;"
                 + "wish v 1 0 with 0 worn 9;wish w 19 0 with 0 worn 5");
         Checks.due(x.grant(1), 0);
