@@ -13,6 +13,7 @@ public final class DayBoundsTest {
         bargainGain();
         bargainChoice();
         bargainStalls();
+        bargainOrder();
         auctionDay();
         auctionedWish();
         bidders();
@@ -265,6 +266,31 @@ public final class DayBoundsTest {
         Checks.due(x.owner(0), 0);
         x = Checks.market(one.replace("#", "50") + ";wish f 1 0 at 1;advance 1");
         Checks.due(x.owner(0), 0);
+    }
+
+    private static void bargainOrder() {
+        Checks.sentence("each person, in the order of the indices, who is a bargainer looks at the wishes");
+        // Each has bought one wish for 20, and the second stall offers 40 for each, but it can take only one.
+        String h = "market 60;stall 8 0 0 0;stall # 50 0;person a 99 9 0 bargain;person b 99 9 0 bargain;"
+                + "wish v 40 0 at 0;wish w 40 0 at 0;";
+        for (String stall : new String[] {"1 99", "8 40", "8 79"}) {
+            for (int of : new int[] {0, 1}) {
+                // The order of the persons decides, not that of the wishes.
+                WishMarket x = Checks.market(h.replace("#", stall) + "buy 0 " + of + ";buy 1 " + (1 - of));
+                x.advance(1);
+                Checks.due(x.stallOf(of), 1);
+                Checks.due(x.owner(1 - of), 1);
+                Checks.due(x.coins(0), 99 - 20 + 40);
+                Checks.due(x.coins(1), 99 - 20);
+            }
+        }
+        // Where two can be taken, both are sold; a person who is no bargainer leaves the place to the next one.
+        WishMarket x = Checks.market(h.replace("#", "2 80") + "buy 0 1;buy 1 0;advance 1");
+        Checks.due(x.stockCount(1), 2);
+        x = Checks.market(h.replace("#", "1 99").replace("0 bargain;person b", "0 party;person b")
+                + "buy 0 1;buy 1 0;advance 1");
+        Checks.due(x.owner(1), 0);
+        Checks.due(x.stallOf(0), 1);
     }
 
     private static void auctionDay() {

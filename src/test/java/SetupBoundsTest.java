@@ -213,6 +213,9 @@ public final class SetupBoundsTest {
         Checks.conflictError(MARKET + "person ^a 0 0 0");
         Checks.conflictError(MARKET + "person ^b 0 0 0");
         Checks.conflictError(STOCK + "rename 0^y");
+        // A person may be called as a wish is, and a wish as a person: the name of another one of its kind is meant.
+        Checks.valid(STOCK + "person x 0 0 0;wish b 1 0 at 0;rename 1 a;rename 2 c");
+        Checks.valid(STOCK + "person y 0 0 0;person z 0 0 0;rename 1 y");
         // Granted and faded wishes are wishes still.
         Checks.conflictError(OWNED + "grant 0;wish ^x 1 0 at 0");
         Checks.conflictError(OWNED + "repeat 3(advance 30);rename 0 w;wish ^y 1 0 at 0");
