@@ -25,6 +25,8 @@ public final class DayBoundsTest {
         taxedStall();
         noStallsYet();
         nextDay();
+        onceAYear();
+        everyPhaseOnOneDay();
         Checks.end();
     }
 
@@ -478,5 +480,75 @@ public final class DayBoundsTest {
         Checks.due(x.day(), 4);
         Checks.due(x.dayOfYear(), 0);
         Checks.due(x.fadedCount(), 1);
+    }
+
+    private static void onceAYear() {
+        for (int year : new int[] {4, 7, 60}) {
+            for (int day : new int[] {0, 2, year - 1}) {
+                onceAYear(year, day);
+            }
+        }
+    }
+
+    /** Birthday, auction and taxes of this day of the year, looked at each day for more than two years. */
+    private static void onceAYear(int year, int day) {
+        String stall = ";stall 8 0 0 0";
+        String text = "market " + year + stall + ";person a 999 " + day + " 0" + ";wish u 99 0 at 0;wish v 99 0 at 0;"
+                + "wish w 99 0 at 0;wish x 99 0 at 0";
+        WishMarket bids = Checks.market(text + ";auction " + day);
+        WishMarket pays = Checks.market(text + ";tax " + day + " 50");
+        int times = 0;
+        int coins = 999;
+        for (int today = 0; today < 2 * year + 3; today++) {
+            Checks.sentence("if the day of the year is the auction day");
+            Checks.due(bids.ownedCount(0), times);
+            Checks.sentence("if the day of the year is the tax day");
+            Checks.due(pays.coins(0), coins);
+            Checks.sentence("whose birthday is the day of the year, the number of candles increases by 1.");
+            Checks.due(pays.candles(0), times);
+            Checks.due(bids.daysUntilBirthday(0) == 0, today % year == day);
+            Checks.due(bids.advance(1) + pays.advance(1), 0);
+            if (today % year == day) {
+                times++;
+                coins -= coins / 2;
+            }
+        }
+    }
+
+    private static void everyPhaseOnOneDay() {
+        Checks.sentence("A day has these phases, in this order.");
+        // On day 3 of each year of 4 days all is done: a and b have birthday, it is the auction and the tax day, and
+        // the year ends.
+        WishMarket x = Checks.market("market 4;stall 2 30 0 0;stall 1 400 50 0;person a 200 3 4 party bargain;"
+                + "person b 100 3 0;wish u 50 5 with 0;wish v 60 0 at 0;wish w 90 0 at 0;advance 3;limit 0 30;"
+                + "auction 3;tax 3 10");
+        Checks.due(x.advance(1), 1);
+        // The fifth candle lets u be granted, for 50.
+        Checks.due(x.candles(0), 5);
+        Checks.due(x.happiness(0), 50);
+        Checks.due(x.isGranted(0), true);
+        // Then a buys v for 30 and sells it to stall 1 for 60, so that a has 230; w costs 45 and is too dear.
+        // Stall 0 auctions w: the bids are 90 of a and 50 of b. Stall 1 auctions v: the bids are 60 of a, of the 140
+        // that are left, and 50 of b.
+        Checks.due(x.owner(2), 0);
+        Checks.due(x.purchasePrice(2), 90);
+        Checks.due(x.owner(1), 0);
+        Checks.due(x.purchasePrice(1), 60);
+        Checks.due(x.purchaseDay(1), 3);
+        // Of the 80 that are left a pays 8, and b pays 10 of 100, to stall 0, which has 30 + 30 + 90.
+        Checks.due(x.coins(0), 72);
+        Checks.due(x.coins(1), 90);
+        Checks.due(x.cash(0), 30 + 30 + 90 + 8 + 10);
+        Checks.due(x.cash(1), 400 - 60 + 60);
+        // One star came from the purchase, none from the auctions.
+        Checks.due(x.stars(0), 1);
+        Checks.due(x.stars(1), 50);
+        // At last the year ends.
+        Checks.due(x.wear(0), 0);
+        Checks.due(x.wear(1), 1);
+        Checks.due(x.wear(2), 1);
+        Checks.due(x.day(), 4);
+        Checks.due(x.candles(1), 1);
+        Checks.due(x.imbalance(), 0);
     }
 }

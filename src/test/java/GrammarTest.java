@@ -26,6 +26,7 @@ public final class GrammarTest {
         wrongTokens();
         endsTooEarly();
         firstTokens();
+        otherWords();
         everyByte();
         Checks.end();
     }
@@ -108,6 +109,47 @@ public final class GrammarTest {
                 Checks.syntaxError("market 9 ^" + token + " ;stall 1 0 0 0;person a 0 0 0");
             }
         }
+    }
+
+    /** A word with one letter more, less or another is another word, which is allowed nowhere but as a name. */
+    private static void otherWords() {
+        Checks.sentence("the grammar does not allow the token here");
+        otherWords("#market 9;stall 1 0 0 0;person a 0 0 0");
+        for (String[] item : ITEMS) {
+            otherWords(H + "#" + item[0]);
+        }
+        otherWords(H + "person z 0 0 0 #party");
+        otherWords(H + "person z 0 0 0 #bargain");
+        otherWords(H + "person z 0 0 0 party #bargain");
+        otherWords(H + "wish z 1 0 #at 0");
+        otherWords(H + "wish z 1 0 #with 0");
+        otherWords(H + "wish z 1 0 at 0 #worn 0");
+        for (char first = 'a'; first <= 'z'; first++) {
+            Checks.syntaxError(H + "wish z 1 0 ^" + first + " 0");
+            for (char second = 'a'; second <= 'z'; second++) {
+                if (first != 'a' || second != 't') {
+                    Checks.syntaxError(H + "wish z 1 0 ^" + first + second + " 0");
+                }
+            }
+        }
+    }
+
+    /** The mark # stands in front of the word. */
+    private static void otherWords(String text) {
+        String before = text.substring(0, text.indexOf('#')) + "^";
+        String word = text.substring(before.length()).split(" ")[0];
+        String behind = text.substring(before.length() + word.length());
+        for (int i = 0; i < word.length(); i++) {
+            String begun = before + word.substring(0, i);
+            for (char letter = 'a'; letter <= 'z'; letter++) {
+                if (letter != word.charAt(i)) {
+                    Checks.syntaxError(begun + letter + word.substring(i + 1) + behind);
+                }
+                Checks.syntaxError(begun + letter + word.substring(i) + behind);
+            }
+            Checks.syntaxError(begun + word.substring(i + 1) + behind);
+        }
+        Checks.syntaxError(before + word + "s" + behind);
     }
 
     private static void everyByte() {

@@ -137,6 +137,7 @@ public final class QuietTest {
             Checks.due(x.undo(), 7);
             Checks.due(Picture.ofMarket(x), Picture.ofMarket(busy()));
             Checks.due(x.bufferLength(), 20);
+            Checks.due(x.parseErrorCode(), WishMarket.RANGE_ERROR);
             Checks.due(x.parseErrorPosition(), 13);
             Checks.due(x.outputByte(0), (int) 'a');
             x.undo();

@@ -355,6 +355,13 @@ public final class SetupBoundsTest {
                     count * 5 * (count + 10));
         }
         Checks.due(Checks.market(MARKET + "repeat 5(repeat 5(repeat 5(advance 1)))").day(), 125);
+        // A setup that broke off in brackets leaves no passes to the next one.
+        WishMarket x = new WishMarket();
+        for (String broken : new String[] {"?", "fee 51", "repeat 5(repeat 5(?"}) {
+            Checks.thrown(Checks.ARGUMENT, () -> Checks.load(x, MARKET + "repeat 5(repeat 4(repeat 3(" + broken));
+            Checks.load(x, MARKET + "repeat 2(repeat 1(repeat 2(advance 1);advance 10))");
+            Checks.due(x.day(), 24);
+        }
     }
 
     private static void laterPasses() {

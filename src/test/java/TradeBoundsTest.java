@@ -253,6 +253,14 @@ public final class TradeBoundsTest {
         WishMarket x = Checks.market(h.replace("#", "2"));
         Checks.due(x.returnWish(0), 18);
         Checks.due(x.cash(0), 0);
+        // The fee is the one of the setup, on whatever day the wish was bought.
+        for (int day = 1; day < 40; day += 6) {
+            WishMarket z = Checks.market("market 60;stall 1 0 50 0;person a 99 0 0;wish w 20 0 at 0;fee 35;advance "
+                    + day + ";buy 0 0;advance 3");
+            Checks.due(z.refund(0), 13);
+            Checks.due(z.returnWish(0), 13);
+            Checks.due(z.cash(0), 7);
+        }
         // A refund of 0 needs no cash.
         WishMarket y = Checks.market("market 9;stall 8 0 50 0;person a 9 0 0;wish w 1 0 at 0;wish v 1 0 with 0;"
                 + "buy 0 0;sell 1 0");
