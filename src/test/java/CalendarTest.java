@@ -24,7 +24,8 @@ public final class CalendarTest {
 
     private static void counts() {
         WishMarket x = Checks.market("market 4;stall 4 0 0 0;person a 0 0 0;person b 0 1 0 party;wish p 9 0 with 0;"
-                + "wish q 9 0 with 0;wish r 9 0 with 1;wish s 9 0 at 0 worn 9;wish t 9 0 with 0 worn 8;wish u 9 0 at 0");
+                + "wish q 9 0 with 0;wish r 9 0 with 1;wish s 9 0 at 0 worn 9;wish t 9 0 with 0 worn 8;"
+                + "wish u 9 0 at 0");
         Checks.due(x.grantedCount(), 0);
         Checks.due(x.fadedCount(), 0);
         x.grant(1);

@@ -326,8 +326,7 @@ public final class CallBoundsTest {
         Checks.due(Checks.market(h + "wish p 9 0 with 0;wish q 9 0 with 0;wish r 9 0 with 0;"
                 + "wish s 9 0 at 0").cheapestWish(0), 3);
         Checks.due(Checks.market(h + "wish p 9 0 with 0;wish q 9 0 with 0;wish r 9 0 with 0;wish s 9 0 with 0;"
-                + "wish t 1 0 at 0")
-                .cheapestWish(0), NONE);
+                + "wish t 1 0 at 0").cheapestWish(0), NONE);
         Checks.sentence("Returns index of the wish; of several the smallest one; NONE if there is none.");
         String g = "market 9;stall 8 0 50 0;person a 9 0 5;person b 9 1 5;";
         Checks.due(Checks.market(g + "fee 0").bestGrant(0), NONE);

@@ -86,7 +86,8 @@ public final class ChangeTest {
         text.append(x.stars(0)).append(' ').append(x.margin(0)).append(' ');
         for (int w = 0; w < 2; w++) {
             text.append(x.wear(w)).append(' ').append(x.owner(w)).append(' ').append(x.stallOf(w)).append(' ');
-            text.append(x.isGranted(w)).append(' ').append(x.purchaseDay(w)).append(' ').append(x.refund(w)).append(' ');
+            text.append(x.isGranted(w)).append(' ').append(x.purchaseDay(w)).append(' ');
+            text.append(x.refund(w)).append(' ');
             text.append(x.daysUntilFaded(w)).append(' ').append(x.returnObstacle(w)).append(' ');
         }
         return text.toString();

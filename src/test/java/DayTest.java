@@ -88,8 +88,8 @@ public final class DayTest {
         Checks.due(x.owner(2), 2);
         Checks.due(x.purchasePrice(2), 50);
         // With four wishes a person can not shop.
-        x = Checks.market("market 60;stall 8 0 0 0;person a 99 0 0;wish a 9 0 with 0;wish b 9 0 with 0;wish c 9 0 with 0;"
-                + "wish d 9 0 at 0;wish e 9 0 at 0;limit 0 200");
+        x = Checks.market("market 60;stall 8 0 0 0;person a 99 0 0;wish a 9 0 with 0;wish b 9 0 with 0;"
+                + "wish c 9 0 with 0;wish d 9 0 at 0;wish e 9 0 at 0;limit 0 200");
         x.advance(2);
         Checks.due(x.ownedCount(0), 4);
         Checks.due(x.stallOf(4), 0);

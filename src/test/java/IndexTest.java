@@ -7,20 +7,19 @@ public final class IndexTest {
     private static final Checks.CallAt[] OF_PERSON = {(x, i) -> x.personLetter(i, 0), (x, i) -> x.personLetter(i, -1),
         (x, i) -> x.coins(i), (x, i) -> x.birthday(i), (x, i) -> x.candles(i), (x, i) -> x.happiness(i),
         (x, i) -> x.ownedCount(i), (x, i) -> x.shoppingLimit(i), (x, i) -> x.daysUntilBirthday(i),
-        (x, i) -> x.cheapestWish(i), (x, i) -> x.bestGrant(i), (x, i) -> x.coinsAfter(i, 0), (x, i) -> x.coinsAfter(i,
-        300),
-        (x, i) -> x.writePerson(i), (x, i) -> x.setLimit(i, 0), (x, i) -> x.setLimit(i, 200)};
+        (x, i) -> x.cheapestWish(i), (x, i) -> x.bestGrant(i), (x, i) -> x.coinsAfter(i, 0),
+        (x, i) -> x.coinsAfter(i, 300), (x, i) -> x.writePerson(i), (x, i) -> x.setLimit(i, 0),
+        (x, i) -> x.setLimit(i, 200)};
     private static final Checks.CallAt[] OF_STALL = {(x, i) -> x.cash(i), (x, i) -> x.stars(i), (x, i) -> x.margin(i),
-        (x, i) -> x.stockCount(i), (x, i) -> x.writeStall(i), (x, i) -> x.setMargin(i, 0), (x, i) -> x.setMargin(i,
-        100)};
+        (x, i) -> x.stockCount(i), (x, i) -> x.writeStall(i), (x, i) -> x.setMargin(i, 0),
+        (x, i) -> x.setMargin(i, 100)};
     private static final Checks.CallAt[] OF_WISH = {(x, i) -> x.wishLetter(i, 0), (x, i) -> x.wishLetter(i, -1),
-        (x, i) -> x.baseValue(i), (x, i) -> x.strength(i), (x, i) -> x.wear(i), (x, i) -> x.value(i), (x,
-        i) -> x.owner(i),
-        (x, i) -> x.stallOf(i), (x, i) -> x.isGranted(i), (x, i) -> x.purchaseDay(i), (x, i) -> x.purchasePrice(i),
-        (x, i) -> x.price(i), (x, i) -> x.offer(i, 0), (x, i) -> x.refund(i), (x, i) -> x.buyObstacle(0, i),
-        (x, i) -> x.sellObstacle(i, 0), (x, i) -> x.returnObstacle(i), (x, i) -> x.grantObstacle(i), (x,
-        i) -> x.bestOffer(i),
-        (x, i) -> x.valueAfter(i, 0), (x, i) -> x.valueAfter(i, 300), (x, i) -> x.daysUntilFaded(i)};
+        (x, i) -> x.baseValue(i), (x, i) -> x.strength(i), (x, i) -> x.wear(i), (x, i) -> x.value(i),
+        (x, i) -> x.owner(i), (x, i) -> x.stallOf(i), (x, i) -> x.isGranted(i), (x, i) -> x.purchaseDay(i),
+        (x, i) -> x.purchasePrice(i), (x, i) -> x.price(i), (x, i) -> x.offer(i, 0), (x, i) -> x.refund(i),
+        (x, i) -> x.buyObstacle(0, i), (x, i) -> x.sellObstacle(i, 0), (x, i) -> x.returnObstacle(i),
+        (x, i) -> x.grantObstacle(i), (x, i) -> x.bestOffer(i), (x, i) -> x.valueAfter(i, 0),
+        (x, i) -> x.valueAfter(i, 300), (x, i) -> x.daysUntilFaded(i)};
 
     /** Calls of two indices, or with another exception behind this one: only a wrong index is tried. */
     private static final Checks.CallAt[] WRONG_PERSON = {(x, i) -> x.buyObstacle(i, 0), (x, i) -> x.buyObstacle(i, i),

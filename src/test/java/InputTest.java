@@ -154,12 +154,13 @@ public final class InputTest {
         Checks.due(x.imbalance(), 0);
     }
 
-    /** A small setup after a large one, valid or not: its persons, stalls and wishes are new, and there are no others. */
+    /** A small setup after a large one, valid or not: its persons, stalls and wishes are new, and all there are. */
     private static void nothingIsLeftOver() {
         Checks.sentence("as a setup (section 6) and replaces the simulation by it.");
         String large = "market 5;stall 8 999 50 0;stall 8 0 9 0;stall 8 0 0 0;person q 99 0 0 party bargain;"
                 + "person r 999 0 0 bargain;wish m 9 0 with 0;wish n 99 0 at 0;wish o 9 0 with 1;"
-                + "wish p 9 0 with 0 worn 9;limit 0 9;limit 1 9;tax 1 9;auction 2;buy 1 1;advance 5;repeat 5(advance 300)";
+                + "wish p 9 0 with 0 worn 9;limit 0 9;limit 1 9;tax 1 9;auction 2;buy 1 1;advance 5;"
+                + "repeat 5(advance 300)";
         String small = "market 4;stall 1 40 0 0;person a 50 0 0;wish x 30 0 with 0";
         WishMarket y = new WishMarket();
         Checks.load(y, small + ";wish y 9 0 with 0;wish z 9 0 with 0 worn 9;grant 1;advance 4");
@@ -197,7 +198,8 @@ public final class InputTest {
             Checks.due(x.imbalance(), 0);
             // The days of the setups before do not count for the 2000 days of this one.
             Checks.due(Checks.load(x, small + ";repeat 5(advance 300)"), 1);
-            Checks.due(Checks.load(x, "market 9;stall 1 0 0 0;person a 50 0 0;wish x 30 0 at 0;auction 0;advance 1"), 1);
+            Checks.due(Checks.load(x, "market 9;stall 1 0 0 0;person a 50 0 0;wish x 30 0 at 0;auction 0;"
+                    + "advance 1"), 1);
             Checks.due(x.owner(0), 0);
             Checks.due(x.grantedCount() + x.fadedCount(), 0);
             Checks.thrown(Checks.INDEX, () -> x.coins(1));

@@ -317,7 +317,8 @@ final class ModelState {
             return;
         }
         Wish w = wishes.get(index);
-        int[] bids = persons.stream().mapToInt(p -> owned(p.index) < 4 ? Math.min(p.coins / 2, w.value()) : -1).toArray();
+        int[] bids = persons.stream().mapToInt(p -> owned(p.index) < 4 ? Math.min(p.coins / 2, w.value()) : -1)
+                .toArray();
         int greatest = IntStream.of(bids).max().orElse(-1);
         if (greatest >= Math.max(1, w.value() / 2)) {
             int winner = IntStream.range(0, bids.length).filter(i -> bids[i] == greatest).findFirst().getAsInt();

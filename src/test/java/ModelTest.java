@@ -6,8 +6,8 @@ import java.util.Comparator;
 import java.util.List;
 
 /**
- * All promises, 1 to 65: runs of calls, drawn by a fixed rule, whose answers and exceptions are those of Model, a second
- * reading of the document.
+ * All promises, 1 to 65: runs of calls, drawn by a fixed rule, whose answers and exceptions are those of Model, a
+ * second reading of the document.
  */
 public final class ModelTest {
     private static final int RUNS = 700;

@@ -26,7 +26,8 @@ public final class QuietTest {
         x -> x.sell(3, 0), x -> x.returnWish(2), x -> x.grant(1), x -> x.setLimit(0, 7), x -> x.setMargin(1, 7)};
 
     private static final String[] WRONG_SETUPS = {"", "?", "market 4", "market 4;stall 1 1 1 1;person z 1 1 1;fee 51",
-        "market 4;stall 8 9 9 9;person z 99 1 1;wish s 9 0 at 0;buy 0 0;limit 0 9;advance 300;repeat 2(wish y 1 0 at 0)"};
+        "market 4;stall 8 9 9 9;person z 99 1 1;wish s 9 0 at 0;buy 0 0;limit 0 9;advance 300;"
+        + "repeat 2(wish y 1 0 at 0)"};
 
     public static void main(String[] args) {
         looking();

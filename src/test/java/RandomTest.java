@@ -191,7 +191,8 @@ public final class RandomTest {
         Checks.due(grant == WishMarket.NONE || x.grantObstacle(grant) == 0 && x.owner(grant) == i, true);
         if (isWish(x, other)) {
             int best = x.bestOffer(other);
-            Checks.due(x.buyObstacle(i, other) != 0 || wish != WishMarket.NONE && x.price(wish) <= x.price(other), true);
+            Checks.due(x.buyObstacle(i, other) != 0
+                    || wish != WishMarket.NONE && x.price(wish) <= x.price(other), true);
             Checks.due(x.sellObstacle(other, stall) != 0
                     || best != WishMarket.NONE && x.offer(other, best) >= x.offer(other, stall), true);
         }

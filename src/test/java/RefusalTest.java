@@ -22,8 +22,7 @@ public final class RefusalTest {
         Checks.end();
     }
 
-    /** An object with everything that could be lost: an error, bytes in the buffer, output, a history,
-            a saved state. */
+    /** An object with all that could be lost: an error, bytes in the buffer, output, a history, a saved state. */
     private static WishMarket busy(String items) {
         WishMarket x = Checks.market(MARKET + items);
         x.saveState(1);
@@ -187,10 +186,9 @@ public final class RefusalTest {
     private static void unloaded() {
         Checks.sentence("throw IllegalStateException if no setup has been loaded.");
         Checks.CallOn[] calls = {x -> x.advance(1), x -> x.buy(0, 0), x -> x.sell(0, 0), x -> x.returnWish(0),
-                x -> x.grant(0),
-            x -> x.setLimit(0, 0), x -> x.setMargin(0, 0), x -> x.undo(), x -> x.saveState(0), x -> x.restoreState(0),
-            x -> x.writeStall(0), x -> x.writePerson(0), x -> x.coinsAfter(0, 1), x -> x.valueAfter(0, 1),
-            x -> x.day()};
+            x -> x.grant(0), x -> x.setLimit(0, 0), x -> x.setMargin(0, 0), x -> x.undo(), x -> x.saveState(0),
+            x -> x.restoreState(0), x -> x.writeStall(0), x -> x.writePerson(0), x -> x.coinsAfter(0, 1),
+            x -> x.valueAfter(0, 1), x -> x.day()};
         for (Checks.CallOn call : calls) {
             Supplier<WishMarket> refusing = () -> {
                 WishMarket x = new WishMarket();

@@ -36,7 +36,8 @@ public final class SearchTest {
 
     private static void bestGrants() {
         WishMarket x = Checks.market("market 9;stall 8 0 0 0;person a 20 0 5;person b 0 1 9;wish a 9 0 with 0;"
-                + "wish b 40 6 with 0;wish c 20 0 with 0 worn 5;wish d 10 5 with 0;wish e 50 0 with 1;wish f 60 0 at 0");
+                + "wish b 40 6 with 0;wish c 20 0 with 0 worn 5;wish d 10 5 with 0;wish e 50 0 with 1;"
+                + "wish f 60 0 at 0");
         Checks.due(x.bestGrant(0), 2);
         Checks.due(x.bestGrant(1), NONE);
         x.grant(2);
@@ -89,7 +90,8 @@ public final class SearchTest {
                 Checks.due(values[w], y.value(w));
             }
         }
-        WishMarket x = Checks.market("market 5;stall 4 50 0 0;person a 80 2 0;wish a 50 0 at 0;wish b 50 0 with 0;tax 1 10");
+        WishMarket x = Checks.market("market 5;stall 4 50 0 0;person a 80 2 0;wish a 50 0 at 0;wish b 50 0 with 0;"
+                + "tax 1 10");
         Checks.due(x.coinsAfter(0, 0), 80);
         Checks.due(x.coinsAfter(0, 1), 80);
         Checks.due(x.coinsAfter(0, 2), 72);
@@ -102,8 +104,8 @@ public final class SearchTest {
     }
 
     private static void fading() {
-        WishMarket x = Checks.market("market 5;stall 4 50 0 0;person a 80 2 0;wish a 50 0 at 0;wish b 50 0 with 0 worn 9;"
-                + "wish c 9 0 with 0 worn 4;advance 2");
+        WishMarket x = Checks.market("market 5;stall 4 50 0 0;person a 80 2 0;wish a 50 0 at 0;"
+                + "wish b 50 0 with 0 worn 9;wish c 9 0 with 0 worn 4;advance 2");
         Checks.due(x.daysUntilFaded(0), 48);
         Checks.due(x.daysUntilFaded(1), 3);
         Checks.due(x.daysUntilFaded(2), 28);

@@ -195,9 +195,8 @@ public final class TradeBoundsTest {
         String h = "market 9;regret 0;stall 1 99 50 0;person a 99 0 0;person b 99 0 0;wish w 9 0 ";
         String[] without = {"at 0", "with 0", "at 0;buy 0 0;sell 0 0", "at 0;buy 0 0;return 0", "at 0;buy 0 0;gift 0 1",
             "at 0;buy 0 0;gift 0 1;gift 0 0", "at 0;buy 0 0;wish v 9 0 with 1;swap 0 1",
-            "at 0;buy 0 0;wish v 9 0 with 0;swap 0 1", "at 0;buy 0 0;wish v 9 0 with 1;swap 1 0", "at 0;buy 0 0;"
-            + "grant 0",
-            "at 0 worn 9;buy 0 0;advance 9", "with 0 worn 9;advance 9"};
+            "at 0;buy 0 0;wish v 9 0 with 0;swap 0 1", "at 0;buy 0 0;wish v 9 0 with 1;swap 1 0",
+            "at 0;buy 0 0;grant 0", "at 0 worn 9;buy 0 0;advance 9", "with 0 worn 9;advance 9"};
         for (String text : without) {
             giveBack(h + text, 0, 1);
             // Also late, and if there is no place: the first obstacle is told.
@@ -290,8 +289,8 @@ public final class TradeBoundsTest {
     private static void grantNobodys() {
         Checks.sentence("To grant a wish: 1 nobody owns the wish");
         String h = "market 4;stall 8 99 0 0;person a 99 0 0;wish w 9 # ";
-        for (String elsewhere : new String[] {"at 0", "with 0;sell 0 0", "at 0;buy 0 0;return 0", "with 0 worn 9;"
-                + "advance 4"}) {
+        for (String elsewhere : new String[] {"at 0", "with 0;sell 0 0", "at 0;buy 0 0;return 0",
+            "with 0 worn 9;advance 4"}) {
             grant(h.replace("#", "0") + elsewhere, 0, 1);
             // Also on another day and with too few candles.
             grant(h.replace("#", "99") + elsewhere + ";advance 1", 0, 1);

@@ -199,8 +199,8 @@ public final class TradeTest {
     }
 
     private static void granting() {
-        WishMarket x = Checks.market("market 9;stall 3 0 0 0;person a 0 2 5;wish a 20 5 with 0 worn 1;wish b 20 6 with 0;"
-                + "wish c 20 0 at 0;wish d 7 0 with 0");
+        WishMarket x = Checks.market("market 9;stall 3 0 0 0;person a 0 2 5;wish a 20 5 with 0 worn 1;"
+                + "wish b 20 6 with 0;wish c 20 0 at 0;wish d 7 0 with 0");
         Checks.due(x.grantObstacle(2), 1);
         Checks.due(x.grantObstacle(0), 2);
         Checks.due(x.grantObstacle(1), 2);
