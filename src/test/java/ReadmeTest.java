@@ -31,21 +31,20 @@ public final class ReadmeTest {
         List<String> due = new ArrayList<>();
         for (String line : program.split("\n")) {
             if (line.contains("System.out.println(")) {
-                due.add(line.substring(line.indexOf("// ") + 3));
+                due.add(answerIn(line.substring(line.indexOf("// ") + 3)));
             }
         }
         String[] printed = run(program).split("\n");
         Checks.due(printed.length, due.size());
         for (int i = 0; i < printed.length; i++) {
-            Checks.due(answerIn(due.get(i), printed[i]), printed[i]);
+            Checks.due(printed[i], due.get(i));
         }
     }
 
-    /** The beginning of a comment that is as long as the answer, and some more if the answer is only a part of it. */
-    private static String answerIn(String comment, String answer) {
-        int end = Math.min(answer.length(), comment.length());
-        boolean goesOn = end < comment.length() && Character.isLetterOrDigit(comment.charAt(end));
-        return goesOn ? comment : comment.substring(0, end);
+    /** The number with which a comment begins, or else all of it. */
+    private static String answerIn(String comment) {
+        Matcher number = Pattern.compile("-?[0-9]+\\b").matcher(comment);
+        return number.lookingAt() ? number.group() : comment;
     }
 
     private static String run(String program) throws Exception {
